@@ -305,7 +305,12 @@ public final class ScanBench {
         if (!isKind(kind) || !isSingleOrNone(single) || !isSingleOrNone(other)) {
             return NO_SUCH;
         }
-        return lab.parts(now, kind, single, other) ? 1 : 0;
+        return prepared().parts(now, kind, single, other) ? 1 : 0;
+    }
+
+    private Lab prepared() {
+        lab.prepare(now);
+        return lab;
     }
 
     private boolean isSingleOrNone(int single) {
@@ -316,11 +321,11 @@ public final class ScanBench {
         if (!isKind(kind) || !isBit(what)) {
             return NONE;
         }
-        return what == 0 ? lab.countFromNone(now, kind) : lab.countFromAll(now, kind);
+        return what == 0 ? prepared().countFromNone(now, kind) : prepared().countFromAll(now, kind);
     }
 
     public int least() {
-        return lab.leastKind(now);
+        return prepared().leastKind(now);
     }
 
     public int mendFirst(int what) {
@@ -412,18 +417,18 @@ public final class ScanBench {
     }
 
     public int fits(int k) {
-        return Long.bitCount(notes.fitting(now, lab, k));
+        return Long.bitCount(notes.fitting(now, prepared(), k));
     }
 
     public int culprit(int i, int k) {
-        return notes.fittingAt(now, lab, i, k);
+        return notes.fittingAt(now, prepared(), i, k);
     }
 
     public int ask(int kind, int what, int k) {
         if (!isKind(kind) || !isBit(what)) {
             return NONE;
         }
-        int step = notes.bestStep(now, lab, kind, k);
+        int step = notes.bestStep(now, prepared(), kind, k);
         return what == 0 || step == NONE ? step : notes.bestLeft;
     }
 
@@ -576,7 +581,7 @@ public final class ScanBench {
                     }
                 } else if (op == NOT) {
                     if (top > 0) {
-                        stack[top - 1] = truth(stack[top - 1] == 0);
+                        stack[top - 1] = stack[top - 1] == 0 ? 1 : 0;
                     }
                 } else if (top > 1) {
                     top--;
@@ -597,21 +602,17 @@ public final class ScanBench {
 
         private static int joined(int op, int a, int b) {
             switch (op) {
-                case OR: return truth(a != 0 || b != 0);
-                case AND: return truth(a != 0 && b != 0);
-                case -'<': return truth(a < b);
-                case -'>': return truth(a > b);
-                case -'=': return truth(a == b);
+                case OR: return a != 0 || b != 0 ? 1 : 0;
+                case AND: return a != 0 && b != 0 ? 1 : 0;
+                case -'<': return a < b ? 1 : 0;
+                case -'>': return a > b ? 1 : 0;
+                case -'=': return a == b ? 1 : 0;
                 case -'+': return a + b;
                 case -'-': return a - b;
                 case -'*': return a * b;
                 case -'/': return b == 0 ? 0 : a / b;
                 default: return b == 0 ? 0 : a % b;
             }
-        }
-
-        private static int truth(boolean is) {
-            return is ? 1 : 0;
         }
     }
 
@@ -994,6 +995,7 @@ public final class ScanBench {
         private int sort = AT_END;
         /** The number, the key word's number, the sign's byte. */
         private int value = 0;
+        /** A word as a number, each letter five bits, so that no text has to be made. */
         private long word = 0;
         private Board board;
         private boolean floatsTold = false;
@@ -1013,14 +1015,9 @@ public final class ScanBench {
                     key++;
                     code = 0;
                 } else {
-                    code = withLetter(code, c);
+                    code = code * 32 + (c - 'a' + 1);
                 }
             }
-        }
-
-        /** Words are told apart by a number, so that none has to be made. */
-        private static long withLetter(long code, int letter) {
-            return code * 32 + (letter - 'a' + 1);
         }
 
         /** The fault (0: none); its place is kept. */
@@ -1049,34 +1046,23 @@ public final class ScanBench {
             return false;
         }
 
-        private static boolean isLetter(int c) {
-            return c >= 'a' && c <= 'z';
-        }
-
-        private static boolean isDigit(int c) {
-            return c >= '0' && c <= '9';
-        }
-
         private static boolean isSignByte(int c) {
             return c == ';' || c >= '(' && c <= '-' && c != ',' || c == '/' || c >= '<' && c <= '>' || c == '%';
         }
 
-        /** The byte there; 0, which is of no token, behind the last. */
-        private int byteAt(int i) {
-            return i >= 0 && i < length ? text[i] : 0;
-        }
-
         private void advance() {
-            while (ahead < length && (byteAt(ahead) == ' ' || byteAt(ahead) == '\n')) {
+            while (ahead < length && (text[ahead] == ' ' || text[ahead] == '\n')) {
                 ahead++;
             }
             start = ahead;
-            int c = byteAt(start);
             if (start >= length) {
                 sort = AT_END;
-            } else if (isLetter(c)) {
+                return;
+            }
+            int c = text[start];
+            if (c >= 'a' && c <= 'z') {
                 takeWord();
-            } else if (isDigit(c)) {
+            } else if (c >= '0' && c <= '9') {
                 takeNumber();
             } else {
                 sort = isSignByte(c) ? AT_SIGN : AT_NO_TOKEN;
@@ -1087,8 +1073,8 @@ public final class ScanBench {
 
         private void takeWord() {
             word = 0;
-            while (ahead < length && isLetter(byteAt(ahead))) {
-                word = withLetter(word, byteAt(ahead));
+            while (ahead < length && text[ahead] >= 'a' && text[ahead] <= 'z') {
+                word = word * 32 + (text[ahead] - 'a' + 1);
                 ahead++;
             }
             sort = ahead - start > LETTERS_MOST ? AT_NO_TOKEN : AT_NAME;
@@ -1102,12 +1088,13 @@ public final class ScanBench {
 
         private void takeNumber() {
             value = 0;
-            while (ahead < length && isDigit(byteAt(ahead))) {
-                value = value * 10 + (byteAt(ahead) - '0');
+            while (ahead < length && text[ahead] >= '0' && text[ahead] <= '9') {
+                value = value * 10 + (text[ahead] - '0');
                 ahead++;
             }
             boolean tooLong = ahead - start > DIGITS_MOST;
-            sort = tooLong || isLetter(byteAt(ahead)) ? AT_NO_TOKEN : AT_NUMBER;
+            boolean lettered = ahead < length && text[ahead] >= 'a' && text[ahead] <= 'z';
+            sort = tooLong || lettered ? AT_NO_TOKEN : AT_NUMBER;
         }
 
         private boolean atKey(int key) {
@@ -1243,8 +1230,16 @@ public final class ScanBench {
                     return false;
                 }
             }
-            if (!takeKey(TO) || !receiversOf(net)) {
+            if (!takeKey(TO) || !cellOfNet(net, board.receivers)) {
                 return false;
+            }
+            for (int count = 1; sort == AT_NAME && count <= RECEIVERS_MOST; count++) {
+                if (count == RECEIVERS_MOST) {
+                    return refuse(MISPLACED);
+                }
+                if (!cellOfNet(net, board.receivers)) {
+                    return false;
+                }
             }
             board.allReceivers |= board.receivers[net];
             board.nets++;
@@ -1257,21 +1252,6 @@ public final class ScanBench {
             }
             board.safe[net] = value;
             advance();
-            return true;
-        }
-
-        private boolean receiversOf(int net) {
-            if (!cellOfNet(net, board.receivers)) {
-                return false;
-            }
-            for (int count = 1; sort == AT_NAME && count <= RECEIVERS_MOST; count++) {
-                if (count == RECEIVERS_MOST) {
-                    return refuse(MISPLACED);
-                }
-                if (!cellOfNet(net, board.receivers)) {
-                    return false;
-                }
-            }
             return true;
         }
 
@@ -1616,7 +1596,7 @@ public final class ScanBench {
         }
 
         int reads(Board board) {
-            return board.readsAt(faults.levels(driven(board)), faults.open, floating(board));
+            return board.readsAt(faults.levels(driven(board)), faults.open, board.floatingAt(faults.open, clocks));
         }
 
         /** One clock: TDO; NONE if nothing was shifted. */
@@ -1711,21 +1691,20 @@ public final class ScanBench {
 
         /** A scan of n bits: what came out. */
         int sweep(Board board, Ways ways, int sort, int bits, int n) {
-            go(board, ways, sort == 0 ? SHIFT_DATA : SHIFT_ORDERS);
+            int there = ways.lead(state, sort == 0 ? SHIFT_DATA : SHIFT_ORDERS, path);
+            for (int i = 0; i < there && i < STATES; i++) {
+                tick(board, path[i], 0);
+            }
             int came = 0;
             for (int i = 0; i < n; i++) {
                 int out = tick(board, i == n - 1 ? 1 : 0, bits >> i & 1);
                 came |= (out & 1) << i;
             }
-            go(board, ways, IDLE);
-            return came;
-        }
-
-        private void go(Board board, Ways ways, int to) {
-            int steps = ways.lead(state, to, path);
-            for (int i = 0; i < steps && i < STATES; i++) {
+            int home = ways.lead(state, IDLE, path);
+            for (int i = 0; i < home && i < STATES; i++) {
                 tick(board, path[i], 0);
             }
+            return came;
         }
 
         void save(int[] row, int at) {
@@ -2080,8 +2059,11 @@ public final class ScanBench {
             made = false;
         }
 
-        /** Made when first asked for, as many a board is never asked. */
-        private void make(Board board) {
+        /** Makes the table, if it is not; only when asked for, as many a board is never asked. */
+        void prepare(Board board) {
+            if (made) {
+                return;
+            }
             int cases = Math.min(board.singleCount() + 1, CASES_MOST);
             int floating = board.floatingAt(board.allReceivers, 0);
             int columns = tellPatterns(board);
@@ -2111,11 +2093,7 @@ public final class ScanBench {
             return column;
         }
 
-        /** The column of a step; the table is made then. */
         int columnOf(Board board, int kind, int step) {
-            if (!made) {
-                make(board);
-            }
             int column = step;
             for (int k = 0; k < kind; k++) {
                 column += Codes.stepCount(board, k);
