@@ -193,6 +193,7 @@ public final class ChainTest {
         ScanBench y = new ScanBench();
         y.scan(0, 0, 1);
         due("SEED without DEVICES", y.about(5), 71);
+        due("noise of the only one", Check.told("device a ir 2 cells 1;noise 100;").scan(0, 0, 1), 1);
     }
 
     private static void manyClocks() {
@@ -298,6 +299,58 @@ public final class ChainTest {
         due("redone, as nothing was done", x.about(7), 1);
         Check.due("redo", x.redo(), true);
         due("faults", x.about(2), 1);
+        everyPart();
+    }
+
+    /** All that an ACT changes is taken back, and done again. */
+    private static void everyPart() {
+        ScanBench x = Check.told(TWO + "noise 100;");
+        for (int single = 1; single < x.singles(); single += 2) {
+            x.harm(single);
+        }
+        x.scan(1, 16, 5);
+        x.scan(0, 31, 5);
+        for (int tms : new int[] {1, 0, 0, 0, 1, 1, 1, 1, 0, 0, 0}) {
+            x.clock(tms, 1);
+        }
+        int[] was = all(x);
+        due("image(0)", x.image(0), 11);
+        for (int i = 0; i < 17; i++) {
+            x.undo();
+        }
+        due("about(6)", x.about(6), 0);
+        due("back to the first", x.about(2), 0);
+        for (int i = 0; i < 17; i++) {
+            x.redo();
+        }
+        same(x, was, "redone");
+        x.scan(1, 9, 5);
+        x.harm(1);
+        x.harm(5);
+        x.harm(7);
+        x.scan(0, 5, 6);
+        due("back(0)", x.back(0), 11);
+        same(x, was, "back");
+    }
+
+    private static int[] all(ScanBench x) {
+        int[] all = new int[40];
+        for (int i = 0; i < 8; i++) {
+            all[i] = x.device(0, i);
+            all[8 + i] = x.device(1, i);
+            all[16 + i] = x.net(0, i);
+            all[24 + i] = x.net(1, i);
+            all[32 + i] = x.single(i, 3);
+        }
+        return all;
+    }
+
+    private static void same(ScanBench x, int[] was, String what) {
+        int[] is = all(x);
+        for (int i = 0; i < was.length; i++) {
+            due(what + ", part " + i, is[i], was[i]);
+        }
+        due(what + ", STATE", x.about(3), 11);
     }
 
     private static void goes() {
@@ -363,7 +416,7 @@ public final class ChainTest {
     private static void formulas() {
         for (String e : new String[] {"device=1", "cell=3", "net=1", "clock=0", "7/2=3", "(0-7)/2=0-3", "(0-7)%3=0-1",
             "5/0=0", "5%0=0", "1+2*3=7", "10-3-2=5", "100/10/5=2", "17%10*2=14", "not 0", "not 1=2", "(2 and 3)=1",
-            "(0 or 5)=1", "1 or 0 and 0", "not 0 and 1", "(not 0)+1=2", "(2<3)+(3>2)=2", "(3<3)=0", "0 or 0-1", "9999"}) {
+            "(0 or 5)=1", "1 or 0 and 0", "not 0 and 1", "(not 0)+1=2", "(3>3)=0", "(2<3)+(3>2)=2", "(3<3)=0", "0 or 0-1", "9999"}) {
             formula(e, true);
         }
         for (String e : new String[] {"0", "0-1", "not 2", "1 and 0", "2=3", "0*5", "clock", "(1 or 0)*0", "0-9999"}) {

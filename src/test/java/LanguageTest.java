@@ -119,6 +119,10 @@ public final class LanguageTest {
                 start = -1;
             }
             no("line " + (i + 1) + " is long", lines[i].length() > 125);
+            // rows are made with the object that has them and used again: no call makes anything
+            boolean isField = lines[i].matches("^ +(private |final |static )+\\S+ \\w+ = new .*;$");
+            no("line " + (i + 1) + " makes something", lines[i].matches(".*\\bnew [A-Za-z].*[(\\[].*") && !isField
+                && !lines[i].matches("^    private (Board|byte\\[\\]) \\w+ = new .*"));
         }
     }
 

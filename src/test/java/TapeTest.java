@@ -52,6 +52,21 @@ public final class TapeTest {
         due("end(8)", x.end(8), -1);
         due("about(10)", x.about(10), 7);
         due("feed", x.feed(0, 0, 0, 0, 0), 27);
+        behindTheEnd("draw 7x;", 6, 2, 6);
+        behindTheEnd("draw 7", 3, 2, 0);
+        behindTheEnd("draw 75", 6, 2, 6);
+        behindTheEnd("draw 7;$", 7, 0, -1);
+    }
+
+    /** Bytes that were on the tape behind its end don't count. */
+    private static void behindTheEnd(String text, int end, int fault, int place) {
+        ScanBench x = new ScanBench();
+        Check.put(x, text);
+        due("end of " + text, x.end(end), end);
+        x.board();
+        due("fault(0) of " + text + " to " + end, x.fault(0), fault);
+        due("fault(1) of " + text + " to " + end, x.fault(1), place);
+        due("about(5)", x.about(5), fault == 0 ? 7 : 0);
     }
 
     private static void boardStaysAtFault() {
@@ -113,6 +128,8 @@ public final class TapeTest {
         fine("draw 0007;");
         faultAt(1, "draw ^00007;");
         faultAt(1, "draw ^7x;");
+        faultAt(1, "draw ^7a;");
+        faultAt(1, "draw ^7z;");
         faultAt(1, "device a ir^2cells 3;");
         faultAt(1, "draw 7^,");
         faultAt(1, "draw 7 ^\t;");
@@ -236,6 +253,9 @@ public final class TapeTest {
         // a unit ( e ) is one, what is in it are more
         faultAt(2, "floats (1" + "+cell".repeat(28) + "+^1);");
         due("units", Check.told("floats (1" + "+cell".repeat(28) + ");").about(11), 30);
+        for (String e : new String[] {"1", "not 1", "1 < 2", "1 + 2", "1 * 2", "(1)", "1 or 2", "1 and 2", "net = clock"}) {
+            due("a line behind floats " + e, Check.told("floats " + e + ";draw 77;").about(5), 77);
+        }
         due("units", Check.told("floats not device < (clock - net) * ((7));").about(11), 7);
     }
 
