@@ -815,7 +815,7 @@ public final class ScanBench {
             return reads & ~open | floating & open;
         }
 
-        /** Which of these receivers read 1 at such levels. */
+        /** Which receivers would read 1 at such levels, were none open. */
         int receiversAt(int levels) {
             return readsAt(levels, 0, 0) & allReceivers;
         }
@@ -1824,10 +1824,7 @@ public final class ScanBench {
         /** Of all codes together. */
         static final int ALL_STEPS_MOST = 15;
 
-        /**
-         * By how many nets there are: n steps do while the greatest number of a net is below 2^n - 1, which has 1 in all
-         * of them, and no lesser number has 1 in all of the lowest steps.
-         */
+        /** By how many nets there are: s steps are enough while no net's number reaches 2^s - 1, the first with 1 in all. */
         private static final int[] COUNT_STEPS = {0, 2, 2, 3, 3, 3, 3};
 
         private static int countSteps(int nets) {
