@@ -1,132 +1,612 @@
 /** Promises 6 to 14, 18 to 21, 47 to 49: devices, nets and cells as they are, clocks, scans, harm, undo, boxes. */
-public final class ChainTest {
+public final class ChainTest extends Check {
     private static final String TWO = "device a ir 2 id 5 cells 3;device b ir 3 cells 2;"
         + "net n from a 0 and b 0 to b 1 safe 1;net m from a 1 to a 2;";
-
-    private static void due(String what, long got, long want) {
-        Check.due(what, got, want);
-    }
+    private static final String FOUR = "device a ir 2 cells 6;device b ir 2 cells 6;net p from a 0 to b 0;net q from a 1 to b 1;"
+        + "net r from a 2 to b 2;net s from a 3 to b 3 safe 1;";
+    private static final String SAFES = "device a ir 2 cells 6;net p from a 0 to a 1 safe 0;net q from a 2 to a 3 safe 1;"
+        + "net r from a 4 to a 5;";
 
     private static void device(ScanBench x, int device, int... wants) {
         for (int what = 0; what < 8; what++) {
             due("device(" + device + ", " + what + ")", x.device(device, what), wants[what]);
         }
-        due("device(.., -1)", x.device(device, -1), -1);
-        due("device(.., 8)", x.device(device, 8), -1);
     }
 
     private static void net(ScanBench x, int net, int... wants) {
         for (int what = 0; what < 8; what++) {
             due("net(" + net + ", " + what + ")", x.net(net, what), wants[what]);
         }
-        due("net(.., -1)", x.net(net, -1), -1);
-        due("net(.., 8)", x.net(net, 8), -1);
     }
 
     private static void cell(ScanBench x, int device, int cell, int... wants) {
         for (int what = 0; what < 4; what++) {
             due("cell(" + device + ", " + cell + ", " + what + ")", x.cell(device, cell, what), wants[what]);
         }
-        due("cell(.., -1)", x.cell(device, cell, -1), -2);
-        due("cell(.., 4)", x.cell(device, cell, 4), -2);
     }
 
-    private static void atFirst() {
-        ScanBench x = Check.told(TWO);
-        device(x, 0, 2, 5, 3, 1, 0, 0, 8, 0);
-        device(x, 1, 3, -1, 2, 7, 0, 0, 1, 0);
-        due("device(2, 0)", x.device(2, 0), -1);
-        due("device(-1, 0)", x.device(-1, 0), -1);
+    private static void clocks(ScanBench x, int... tms) {
+        for (int one : tms) {
+            x.clock(one, 0);
+        }
+    }
+
+    // ---- 6
+
+    static void p06_noneSuch() {
+        for (int devices = 0; devices <= 4; devices++) {
+            StringBuilder text = new StringBuilder();
+            for (int d = 0; d < devices; d++) {
+                text.append("device ").append((char) ('a' + d)).append(" ir 3 cells 2;");
+            }
+            ScanBench x = told(text.toString());
+            for (int what = 0; what < 8; what++) {
+                due("device behind the last", x.device(devices, what), -1);
+                due("device(-1)", x.device(-1, what), -1);
+            }
+            if (devices > 0) {
+                due("the last DEVICE", x.device(devices - 1, 0), 3);
+            }
+        }
+        ScanBench x = told(TWO);
+        for (int far : FAR) {
+            due("device(" + far + ", 0)", x.device(far, 0), -1);
+        }
+    }
+
+    static void p06_anotherWhat() {
+        ScanBench x = told(TWO);
+        due("device(0, -1)", x.device(0, -1), -1);
+        due("device(0, 8)", x.device(0, 8), -1);
+        for (int far : FAR) {
+            due("device(0, " + far + ")", x.device(0, far), -1);
+        }
+    }
+
+    static void p06_asTold() {
+        ScanBench x = told("device a ir 2 id 0 cells 0;device b ir 4 id 127 cells 6;device c ir 3 cells 1;");
+        device(x, 0, 2, 0, 0, 1, 0, 0, 8, 0);
+        device(x, 1, 4, 127, 6, 1, 0, 0, 8, 0);
+        device(x, 2, 3, -1, 1, 7, 0, 0, 1, 0);
+    }
+
+    static void p06_orderAtFirst() {
+        ScanBench x = told("device a ir 2 cells 1;device b ir 3 cells 1;device c ir 4 cells 1;device d ir 4 id 0 cells 1;");
+        int[] orders = {3, 7, 15, 1};
+        for (int d = 0; d < 4; d++) {
+            due("ORDER of " + d, x.device(d, 3), orders[d]);
+            due("order register of " + d, x.device(d, 4), 0);
+        }
+    }
+
+    /** TEST and LOOK have the cells as data, WHO 8 bits if there is an id, all others one. */
+    static void p06_bitsByOrder() {
+        ScanBench x = told("device a ir 4 id 9 cells 6;device b ir 4 cells 5;device c ir 4 id 0 cells 0;");
+        for (int order = 0; order < 16; order++) {
+            x.scan(1, order | order << 4 | order << 8, 12);
+            boolean cells = order == 0 || order == 2;
+            due("ORDER", x.device(0, 3), order);
+            due("bits of a in " + order, x.device(0, 6), cells ? 6 : order == 1 ? 8 : 1);
+            due("bits of b in " + order, x.device(1, 6), cells ? 5 : 1);
+            due("bits of c in " + order, x.device(2, 6), cells ? 0 : order == 1 ? 8 : 1);
+        }
+    }
+
+    static void p06_anotherOrderAndTheDataRegisterIs0() {
+        ScanBench x = told("device a ir 3 cells 2;");
+        x.scan(0, 1, 1);
+        due("data in PASS", x.device(0, 5), 1);
+        x.scan(1, 7, 3);
+        due("data, the ORDER being the same", x.device(0, 5), 1);
+        x.scan(1, 5, 3);
+        due("data, being in PASS by another ORDER", x.device(0, 5), 0);
+        x.scan(0, 1, 1);
+        x.scan(1, 5, 3);
+        due("data, the ORDER being the same", x.device(0, 5), 1);
+        x.scan(1, 0, 3);
+        due("data in TEST", x.device(0, 5), 0);
+        x.scan(0, 3, 2);
+        x.scan(1, 2, 3);
+        due("data in LOOK", x.device(0, 5), 0);
+        due("LATCHES stay", x.device(0, 7), 3);
+    }
+
+    static void p06_latchesOfThoseInTest() {
+        for (int order = 0; order < 4; order++) {
+            ScanBench x = told("device a ir 2 id 6 cells 3;");
+            x.scan(1, order, 2);
+            x.scan(0, 0x1ff, 9);
+            due("LATCHES in " + order, x.device(0, 7), order == 0 ? 7 : 0);
+        }
+    }
+
+    // ---- 7
+
+    static void p07_noneSuch() {
+        ScanBench x = told(FOUR);
+        due("net(3, 0)", x.net(3, 0), 1);
+        for (int what = 0; what < 8; what++) {
+            due("net(4, " + what + ")", x.net(4, what), -1);
+            due("net(-1, " + what + ")", x.net(-1, what), -1);
+        }
+        for (int far : FAR) {
+            due("net(" + far + ", 0)", x.net(far, 0), -1);
+        }
+        due("net(0, 0) without NETS", told("device a ir 2 cells 6;").net(0, 0), -1);
+        ScanBench six = told("device a ir 2 cells 6;device b ir 2 cells 6;net a from a 0 to b 0;net b from a 1 to b 1;"
+            + "net c from a 2 to b 2;net d from a 3 to b 3;net e from a 4 to b 4;net f from a 5 to b 5;");
+        due("net(5, 7)", six.net(5, 7), 32);
+        due("net(6, 7)", six.net(6, 7), -1);
+    }
+
+    static void p07_anotherWhat() {
+        ScanBench x = told(TWO);
+        due("net(0, -1)", x.net(0, -1), -1);
+        due("net(0, 8)", x.net(0, 8), -1);
+        for (int far : FAR) {
+            due("net(0, " + far + ")", x.net(0, far), -1);
+        }
+    }
+
+    static void p07_asTold() {
+        ScanBench x = told("device a ir 2 cells 6;device b ir 2 cells 6;net n from a 0 and b 1 to a 1 a 2 b 5;net m from b 0 to b 2 safe 0;"
+            + "net k from a 3 to a 4 safe 1;stuck k 0;stuck m 1;");
+        net(x, 0, 2, 3, -1, -1, 0, 0, 0, 1);
+        net(x, 1, 1, 1, 0, 1, 1, 1, 0, 2);
+        net(x, 2, 1, 1, 1, 0, 0, 0, 0, 4);
+    }
+
+    static void p07_driveByLatchOrSafe() {
+        ScanBench x = told(TWO);
         net(x, 0, 2, 1, 1, -1, 1, 1, 0, 1);
         net(x, 1, 1, 1, -1, -1, 0, 0, 0, 2);
-        due("net(2, 0)", x.net(2, 0), -1);
-        due("net(-1, 0)", x.net(-1, 0), -1);
+        x.scan(1, 0, 5);
+        due("DRIVE by LATCHES of 0", x.net(0, 4), 0);
+        // the last DEVICE's bits come first: b 0, then a 0 and a 1
+        x.scan(0, 1 | 3 << 2, 5);
+        due("DRIVE by LATCHES of 1", x.net(0, 4), 1);
+        due("DRIVE by LATCH a 1", x.net(1, 4), 1);
+        // a in LOOK, b in TEST: a drives what is safe, or 0
+        x.scan(1, 2 << 3, 5);
+        due("DRIVE by what is safe", x.net(0, 4), 1);
+        due("DRIVE, nothing being told", x.net(1, 4), 0);
+        due("LATCHES stay", x.device(0, 7), 3);
+    }
+
+    static void p07_bothDriversAndTogether() {
+        for (int latches = 0; latches < 4; latches++) {
+            ScanBench x = told("device a ir 2 cells 3;net n from a 0 and a 1 to a 2;");
+            x.scan(1, 0, 2);
+            x.scan(0, latches, 3);
+            due("DRIVE by " + latches, x.net(0, 4), latches == 3 ? 1 : 0);
+            due("FIGHTS by " + latches, x.net(0, 6), latches == 1 || latches == 2 ? 1 : 0);
+            due("fights() by " + latches, x.fights(), x.net(0, 6));
+        }
+    }
+
+    static void p07_stuckIsItsDrive() {
+        for (int at = 0; at < 2; at++) {
+            ScanBench x = told("device a ir 2 cells 3;net n from a 0 and a 1 to a 2;stuck n " + at + ";");
+            x.scan(1, 0, 2);
+            x.scan(0, at == 0 ? 3 : 0, 3);
+            net(x, 0, 2, 1, -1, at, at, at, 0, 1);
+            x.scan(0, 2, 3);
+            net(x, 0, 2, 1, -1, at, at, at, 1, 1);
+        }
+    }
+
+    static void p07_levelOfThoseThatHangTogether() {
+        ScanBench x = told(FOUR + "short s p high;short r q high;short p q high;");
+        due("hang together", x.net(3, 7), 15);
+        due("the or", x.net(2, 5), 1);
+        ScanBench y = told(FOUR + "short s p high;short r q low;short p q high;");
+        due("hang together", y.net(0, 7), 15);
+        for (int net = 0; net < 4; net++) {
+            due("the and, as one of them is low", y.net(net, 5), 0);
+            due("DRIVE", y.net(net, 4), net == 3 ? 1 : 0);
+        }
+    }
+
+    static void p07_levelOfThoseThatDont() {
+        ScanBench x = told(FOUR + "short s p high;short q r low;stuck q 1;");
+        due("hang together", x.net(0, 7), 9);
+        due("hang together", x.net(1, 7), 6);
+        due("the or, a low one being elsewhere", x.net(0, 5), 1);
+        due("the and with one that is stuck", x.net(1, 5), 0);
+        due("DRIVE of it", x.net(1, 4), 1);
+    }
+
+    static void p07_theAndOfOnesIs1TheOrOfNoughtsIs0() {
+        due("and of 1, 1", told(FOUR + "short s p low;stuck p 1;").net(0, 5), 1);
+        due("and of 0, 1", told(FOUR + "short s p low;").net(3, 5), 0);
+        due("or of 0, 0", told(FOUR + "short q p high;").net(0, 5), 0);
+        due("or of 0, 1", told(FOUR + "short s p high;").net(0, 5), 1);
+    }
+
+    // ---- 8
+
+    static void p08_noneSuch() {
+        ScanBench x = told("device a ir 2 cells 0;device b ir 2 cells 6;device c ir 2 cells 3;");
+        int[] cells = {0, 6, 3, 0};
+        for (int d = 0; d < 4; d++) {
+            for (int what = 0; what < 4; what++) {
+                due("cell behind the last", x.cell(d, cells[d], what), -2);
+                due("cell(" + d + ", -1)", x.cell(d, -1, what), -2);
+                due("cell(-1, 0)", x.cell(-1, 0, what), -2);
+            }
+            if (cells[d] > 0) {
+                due("the last cell", x.cell(d, cells[d] - 1, 0), -1);
+            }
+        }
+        for (int far : FAR) {
+            due("cell(" + far + ", 0, 0)", x.cell(far, 0, 0), -2);
+            due("cell(1, " + far + ", 0)", x.cell(1, far, 0), -2);
+            due("cell(" + far + ", " + far + ", 0)", x.cell(far, far, 0), -2);
+        }
+        due("cell(0, 0, 0) without DEVICES", new ScanBench().cell(0, 0, 0), -2);
+    }
+
+    static void p08_anotherWhat() {
+        ScanBench x = told(TWO);
+        due("cell(0, 0, -1)", x.cell(0, 0, -1), -2);
+        due("cell(0, 0, 4)", x.cell(0, 0, 4), -2);
+        for (int far : FAR) {
+            due("cell(0, 0, " + far + ")", x.cell(0, 0, far), -2);
+        }
+    }
+
+    static void p08_ofNoNet() {
+        ScanBench x = told("device a ir 2 cells 4;net n from a 0 to a 2 safe 1;floats 1;");
+        cell(x, 0, 1, -1, -1, 0, 0);
+        cell(x, 0, 3, -1, -1, 0, 0);
+        x.scan(1, 0, 2);
+        x.scan(0, 15, 4);
+        cell(x, 0, 3, -1, -1, 0, 0);
+    }
+
+    static void p08_driversAndReceivers() {
+        ScanBench x = told(TWO + "open b 1;");
         cell(x, 0, 0, 0, 0, 0, 1);
+        cell(x, 1, 0, 0, 0, 0, 1);
+        cell(x, 1, 1, 0, 1, 1, 0);
         cell(x, 0, 1, 1, 0, 0, 0);
         cell(x, 0, 2, 1, 1, 0, 0);
-        cell(x, 1, 1, 0, 1, 0, 1);
-        due("cell(1, 2, 0)", x.cell(1, 2, 0), -2);
-        due("cell(2, 0, 0)", x.cell(2, 0, 0), -2);
-        due("cell(0, -1, 0)", x.cell(0, -1, 0), -2);
-        due("length(0)", x.length(0), 9);
-        due("length(1)", x.length(1), 5);
-        due("length(2)", x.length(2), -1);
-        due("length(-1)", x.length(-1), -1);
-        due("found(0)", x.found(0), -2);
-        due("found(1)", x.found(1), 5);
-        due("found(2)", x.found(2), -1);
-        due("found(-1)", x.found(-1), -1);
-        cell(Check.told("device a ir 2 cells 1;"), 0, 0, -1, -1, 0, 0);
     }
 
-    private static void scans() {
-        ScanBench x = Check.told(TWO);
-        due("who", x.scan(0, 0, 9), 22);
-        due("CLOCKS", x.about(4), 15);
-        due("STATE", x.about(3), 1);
-        due("TEST, LOOK", x.scan(1, 2, 5), 9);
-        due("CLOCKS", x.about(4), 26);
-        device(x, 0, 2, 5, 3, 0, 0, 0, 3, 0);
-        device(x, 1, 3, -1, 2, 2, 2, 0, 2, 0);
-        due("length(0)", x.length(0), 5);
-        due("fights()", x.fights(), 1);
-        due("unsafe()", x.unsafe(), 1);
-        net(x, 0, 2, 1, 1, -1, 0, 0, 1, 1);
-        due("latches of a", x.scan(0, 12, 5), 0);
-        device(x, 0, 2, 5, 3, 0, 0, 3, 3, 3);
-        device(x, 1, 3, -1, 2, 2, 2, 0, 2, 0);
-        due("fights()", x.fights(), 0);
-        due("unsafe()", x.unsafe(), 0);
-        cell(x, 0, 2, 1, 1, 0, 1);
-        due("what the cells read", x.scan(0, 31, 5), 31);
-        due("LATCHES of a", x.device(0, 7), 7);
-        due("data of b, that looks", x.device(1, 5), 3);
-        due("LATCHES of b, that looks", x.device(1, 7), 0);
-        due("TEST, TEST", x.scan(1, 0, 5), 9);
-        due("data of a, with the same ORDER", x.device(0, 5), 7);
-        due("data of b, with another ORDER", x.device(1, 5), 0);
-        due("fights()", x.fights(), 1);
-        due("found(1) stays", x.found(1), 5);
+    private static void formula(String e, boolean above) {
+        ScanBench x = told("device a ir 2 cells 1;device b ir 2 cells 5;net m from b 0 to b 1;"
+            + "net n from b 2 to b 4 b 3;open b 3;floats " + e + ";");
+        due("floats " + e, x.cell(1, 3, 3), above ? 1 : 0);
+        due("what is not open", x.cell(1, 4, 3), 0);
     }
 
-    private static void reset() {
-        ScanBench x = Check.told(TWO);
+    static void p08_openReads1IfAbove0() {
+        formula("1", true);
+        formula("0", false);
+        formula("0-1", false);
+        formula("9999", true);
+        formula("0-9999", false);
+        due("floats not told", told("device a ir 2 cells 3;net n from a 0 to a 1 safe 1;open a 1;").cell(0, 1, 3), 0);
+    }
+
+    static void p08_numbersOfDeviceCellNet() {
+        formula("device=1", true);
+        formula("cell=3", true);
+        formula("net=1", true);
+        ScanBench x = told("device a ir 2 cells 3;net m from a 1 to a 0;open a 0;floats 1-device-cell-net-clock;");
+        due("all of the first are 0", x.cell(0, 0, 3), 1);
+        ScanBench y = told("device a ir 2 cells 6;device b ir 2 cells 6;device c ir 2 cells 6;device d ir 2 cells 6;net a from a 0 to a 1;"
+            + "net b from a 2 to a 3;net c from a 4 to a 5;net d from b 0 to b 1;net e from b 2 to b 3;net f from d 0 to d 5;"
+            + "open d 5;floats device=3 and cell=5 and net=5;");
+        due("the last of all", y.cell(3, 5, 3), 1);
+    }
+
+    static void p08_divisionIsCut() {
+        formula("7/2=3", true);
+        formula("(0-7)/2=0-3", true);
+        formula("7/(0-2)=0-3", true);
+        formula("(0-7)%3=0-1", true);
+        formula("7%(0-3)=1", true);
+        formula("(0-6)%3=0", true);
+    }
+
+    static void p08_bothBy0Are0() {
+        formula("5/0=0", true);
+        formula("(0-5)/0=0", true);
+        formula("0/0=0", true);
+        formula("5%0=0", true);
+        formula("(0-5)%0=0", true);
+        formula("7/device/cell/(net-1)", false);
+    }
+
+    static void p08_intsWrap() {
+        String most = "(9999*9999*21+9999*4790+8416)";
+        formula(most, true);
+        formula(most + "+1<0", true);
+        formula("0-" + most + "-1<0", true);
+        formula("0-" + most + "-2=" + most, true);
+        formula("(5000*10)*(5000*10)<0", true);
+        formula("0-(" + most + "+1)<0", true);
+        formula("(" + most + "+1)/(0-1)<0", true);
+        formula("(" + most + "+1)%(0-1)=0", true);
+        // relations of numbers too far apart for an int to tell by taking one from the other
+        formula(most + ">0-" + most, true);
+        formula("0-2<" + most, true);
+    }
+
+    static void p08_relationsAndOrNotAre1Or0() {
+        for (String e : new String[] {"(2<3)+(3>2)+(3=3)=3", "(3<3)=0", "(3>3)=0", "(3=4)=0", "(4<3)=0", "(2>3)=0", "not 0", "(not 0)=1",
+            "(not 5)=0", "(not (0-5))=0", "(2 and 3)=1", "(2 and 0)=0", "(0 and 2)=0", "(0-1 and 0-2)=1", "(0 or 5)=1", "(5 or 0)=1",
+            "(0 or 0)=0", "(0 or 0-5)=1"}) {
+            formula(e, true);
+        }
+    }
+
+    static void p08_whatBindsMore() {
+        for (String e : new String[] {"1+2*3=7", "10-3-2=5", "100/10/5=2", "17%10*2=14", "2*17%10=4", "not 1=2", "(not 0)+1=2",
+            "1 or 0 and 0", "not 0 and 1", "not 1 or 1", "1+1<3", "3>1+1"}) {
+            formula(e, true);
+        }
+        formula("(1 or 0)*0", false);
+        formula("0 and 0 or 0", false);
+        formula("not (0 or 1)", false);
+    }
+
+    static void p08_clocksThereWere() {
+        ScanBench x = told("device a ir 2 cells 2;net n from a 0 to a 1;open a 1;floats clock%2;");
+        due("behind none", x.cell(0, 1, 3), 0);
+        x.clock(0, 0);
+        due("behind one", x.cell(0, 1, 3), 1);
+        x.clock(0, 0);
+        due("behind two", x.cell(0, 1, 3), 0);
+        x.undo();
+        due("behind one again", x.cell(0, 1, 3), 1);
+    }
+
+    static void p08_clocksThereWereAtACapture() {
+        ScanBench x = told("device a ir 2 cells 2;net n from a 0 to a 1;open a 1;floats clock%2;");
+        due("LOOK", x.scan(1, 2, 2), 1);
+        due("CLOCKS", x.about(4), 9);
+        due("taken in behind 11 CLOCKS", x.scan(0, 0, 2), 2);
+        due("taken in behind 16 and 2", x.scan(0, 0, 2), 0);
+    }
+
+    // ---- 9
+
+    static void p09_whatCantBe() {
+        ScanBench x = told(TWO);
+        clocks(x, 0, 1, 0, 0);
+        x.undo();
+        for (int no : new int[] {-1, 2, 3, Integer.MIN_VALUE, Integer.MAX_VALUE}) {
+            still(x, "clock(" + no + ", 0)", () -> x.clock(no, 0), -2);
+        }
+        ScanBench y = told(TWO);
+        for (int no : new int[] {-1, 2, 3, Integer.MIN_VALUE, Integer.MAX_VALUE}) {
+            still(y, "clock(0, " + no + ")", () -> y.clock(0, no), -2);
+        }
+    }
+
+    /** So many clocks take more than 512 calls; what is told of them holds for all that. */
+    static void p09_behind9999() {
+        ScanBench x = told(TWO);
+        while (x.about(4) < 9000) {
+            x.scan(1, 0, 30);
+        }
+        while (x.about(4) < 9998) {
+            x.clock(0, 0);
+        }
+        due("clock behind 9998", x.clock(0, 0), -1);
+        due("CLOCKS", x.about(4), 9999);
+        still(x, "clock behind 9999", () -> x.clock(0, 0), -2);
+        due("undo", x.undo(), true);
+        due("clock behind 9998", x.clock(1, 1), -1);
+    }
+
+    static void p09_theNextState() {
+        for (int state = 0; state < 16; state++) {
+            for (int tms = 0; tms < 2; tms++) {
+                ScanBench x = told(TWO);
+                WalkTest.lead(x, state);
+                int ahead = x.about(4);
+                x.clock(tms, 0);
+                due("STATE behind " + state + " by " + tms, x.about(3), WalkTest.NEXT[state][tms]);
+                due("CLOCKS", x.about(4), ahead + 1);
+            }
+        }
+    }
+
+    static void p09_nothingIsShiftedButInShift() {
+        for (int state = 0; state < 16; state++) {
+            for (String text : new String[] {TWO, ""}) {
+                ScanBench x = told(text);
+                WalkTest.lead(x, state);
+                int tdo = x.clock(1, 1);
+                due("clock in " + state, state == 4 || state == 11 ? tdo >= 0 : tdo == -1, true);
+            }
+        }
+    }
+
+    static void p09_whatComesInGoesOutWithoutDevices() {
+        for (int state : new int[] {4, 11}) {
+            for (int tdi = 0; tdi < 2; tdi++) {
+                ScanBench x = new ScanBench();
+                WalkTest.lead(x, state);
+                due("clock(0, " + tdi + ") in " + state, x.clock(0, tdi), tdi);
+                due("clock(1, " + tdi + ") in " + state, x.clock(1, tdi), tdi);
+            }
+        }
+    }
+
+    static void p09_registersWithoutBits() {
+        ScanBench x = told("device a ir 2 cells 0;device b ir 2 cells 0;noise 100;");
+        x.scan(1, 0, 4);
+        due("length(0)", x.length(0), 0);
+        due("what comes in goes out", x.scan(0, 21, 5), 21);
+        due("data", x.device(1, 5), 0);
+        due("LATCHES", x.device(1, 7), 0);
+        // one without bits between two in PASS, which take in 0
+        ScanBench y = told("device a ir 2 cells 1;device b ir 2 cells 0;device c ir 2 cells 1;");
+        y.scan(1, 3 | 0 << 2 | 3 << 4, 6);
+        due("two bits behind", y.scan(0, 15, 4), 12);
+    }
+
+    static void p09_theLowestBitGoesOutTheHighestComesIn() {
+        ScanBench x = told("device a ir 2 id 64 cells 1;");
+        clocks(x, 0, 1, 0, 0);
+        due("who it is", x.device(0, 5), 129);
+        due("TDO", x.clock(0, 1), 1);
+        due("shifted by one, 1 coming in", x.device(0, 5), 64 + 128);
+        due("TDO", x.clock(0, 0), 0);
+        due("shifted by one, 0 coming in", x.device(0, 5), 96);
+        ScanBench y = told("device a ir 2 cells 1;device b ir 4 cells 1;");
+        clocks(y, 0, 1, 1, 0, 0);
+        due("order register of a", y.device(0, 4), 1);
+        due("order register of b", y.device(1, 4), 1);
+        due("TDO", y.clock(0, 1), 1);
+        due("order register of a", y.device(0, 4), 2);
+        due("order register of b", y.device(1, 4), 8);
+        due("TDO", y.clock(0, 1), 0);
+        due("order register of a", y.device(0, 4), 3);
+        due("order register of b", y.device(1, 4), 4);
+    }
+
+    static void p09_whatIsTakenInAtCapture() {
+        int[] wants = {5, 2 * 127 + 1, 5, 0};
+        for (int order = 0; order < 4; order++) {
+            ScanBench x = told("device a ir 2 id 127 cells 3;net n from a 0 to a 2 safe 1;stuck n 1;");
+            x.scan(1, order, 2);
+            clocks(x, 1, 0);
+            due("data ahead of it", x.device(0, 5), 0);
+            due("CAPTURE gives out nothing", x.clock(1, 1), -1);
+            due("data in " + order, x.device(0, 5), wants[order]);
+        }
+    }
+
+    static void p09_resetByAClockDoneInReset() {
+        ScanBench x = told(TWO);
         x.scan(1, 0, 5);
         x.scan(0, 31, 5);
-        x.clock(1, 0);
-        x.clock(1, 0);
-        x.clock(1, 0);
+        clocks(x, 1, 1, 1);
         due("STATE", x.about(3), 0);
         due("ORDER of a, as it was", x.device(0, 3), 0);
-        due("data of a", x.device(0, 5), 7);
+        due("data of a, as it was", x.device(0, 5), 7);
         x.clock(1, 0);
         device(x, 0, 2, 5, 3, 1, 0, 0, 8, 7);
         device(x, 1, 3, -1, 2, 7, 0, 0, 1, 3);
-        ScanBench y = Check.told("device a ir 2 id 5 cells 3;device b ir 3 cells 2;");
-        due("1 is PASS without id", y.scan(1, 1 | 1 << 3, 5), 9);
-        due("bits of a", y.device(0, 6), 8);
-        due("bits of b", y.device(1, 6), 1);
-        due("3 is PASS", y.scan(1, 2 | 3 << 3, 5), 9);
-        due("bits of a", y.device(0, 6), 1);
-        due("bits of b", y.device(1, 6), 2);
     }
 
-    private static void clocks() {
-        ScanBench x = Check.told(TWO);
+    static void p09_resetOfThoseThatHaveTheOrderAlready() {
+        ScanBench x = told("device a ir 3 cells 2;");
+        x.scan(0, 1, 1);
+        clocks(x, 1, 1, 1, 1);
+        due("ORDER", x.device(0, 3), 7);
+        due("data, the ORDER being the same", x.device(0, 5), 1);
+        x.scan(1, 6, 3);
+        x.scan(0, 1, 1);
+        clocks(x, 1, 1, 1, 1);
+        due("ORDER", x.device(0, 3), 7);
+        due("data, with another ORDER", x.device(0, 5), 0);
+    }
+
+    static void p09_updateIsDoneInUpdate() {
+        ScanBench x = told(TWO);
+        WalkTest.lead(x, 11);
+        for (int i = 0; i < 5; i++) {
+            x.clock(i == 4 ? 1 : 0, 0);
+        }
+        due("STATE", x.about(3), 12);
+        x.clock(1, 0);
+        due("STATE", x.about(3), 15);
+        due("ORDER, as it was", x.device(0, 3), 1);
+        x.clock(0, 0);
+        due("ORDER", x.device(0, 3), 0);
+        WalkTest.lead(x, 4);
+        for (int i = 0; i < 5; i++) {
+            x.clock(i == 4 ? 1 : 0, 1);
+        }
+        x.clock(1, 0);
+        due("STATE", x.about(3), 8);
+        due("LATCHES, as they were", x.device(0, 7), 0);
+        x.clock(1, 0);
+        due("LATCHES", x.device(0, 7), 7);
+        due("STATE", x.about(3), 2);
+    }
+
+    static void p09_theSeedModulo1000() {
+        int[] draws = {0, 1, 5, 999, 7};
+        int[] wants = {71, 208, 756, 934, 30};
+        for (int i = 0; i < draws.length; i++) {
+            ScanBench x = told("draw " + draws[i] + ";");
+            clocks(x, 0, 1, 0);
+            due("SEED ahead of CAPTURE", x.about(5), draws[i]);
+            x.clock(0, 0);
+            due("SEED", x.about(5), wants[i]);
+        }
+        ScanBench x = told(TWO);
+        x.scan(0, 0, 1);
+        x.scan(1, 31, 5);
+        due("SEED behind one CAPTURE of DATA and one of ORDERS", x.about(5), 71);
+    }
+
+    /** 5 * 137 + 71 is 756, of which the rest by 100 is 56. */
+    static void p09_noiseIfTheRestIsLess() {
+        for (int noise : new int[] {0, 1, 55, 56, 57, 99, 100}) {
+            ScanBench x = told("device a ir 2 cells 0;device b ir 2 id 3 cells 1;draw 5;noise " + noise + ";");
+            clocks(x, 0, 1, 0, 0);
+            due("data by noise " + noise, x.device(1, 5), noise > 56 ? 6 : 7);
+        }
+        // 17 * 137 + 71 is 2,400
+        for (int draw : new int[] {17, 117, 917}) {
+            ScanBench x = told("device a ir 2 cells 1;draw " + draw + ";noise 1;");
+            clocks(x, 0, 1, 0, 0);
+            due("data by noise 1, the rest being 0", x.device(0, 5), 1);
+        }
+        ScanBench y = told("device a ir 2 cells 1;draw 17;noise 0;");
+        clocks(y, 0, 1, 0, 0);
+        due("data by noise 0, the rest being 0", y.device(0, 5), 0);
+        ScanBench z = told("device a ir 2 cells 1;draw 4;noise 19;");
+        clocks(z, 0, 1, 0, 0);
+        due("data by noise 19, the rest being 19", z.device(0, 5), 0);
+    }
+
+    static void p09_noiseOfTheLastDevice() {
+        ScanBench x = told("device a ir 2 cells 2;device b ir 2 id 3 cells 3;noise 100;");
+        clocks(x, 0, 1, 0, 0);
+        due("data of a", x.device(0, 5), 0);
+        due("data of b, WHO", x.device(1, 5), 6);
+        x.scan(1, 15, 4);
+        x.scan(0, 0, 1);
+        clocks(x, 1, 0, 0);
+        due("data of a", x.device(0, 5), 0);
+        due("data of b, PASS", x.device(1, 5), 1);
+        ScanBench y = told("device a ir 2 cells 2;device b ir 2 cells 0;noise 100;");
+        y.scan(1, 3 << 2, 4);
+        clocks(y, 1, 0, 0);
+        due("data of a, the last one having no bits", y.device(0, 5), 0);
+        due("data of b", y.device(1, 5), 0);
+        due("SEED goes on", y.about(5), 71);
+        ScanBench none = told("noise 100;");
+        clocks(none, 0, 1, 0, 0);
+        due("SEED without DEVICES", none.about(5), 71);
+    }
+
+    static void p09_noNoiseButAtCaptureOfData() {
+        ScanBench x = told("device a ir 2 cells 2;noise 100;");
+        x.scan(1, 3, 2);
+        clocks(x, 1, 1, 0, 0);
+        due("order register", x.device(0, 4), 1);
+        due("SEED", x.about(5), 0);
+    }
+
+    static void p09_aWholeWay() {
+        ScanBench x = told(TWO);
         int[] tms = {0, 1, 0, 0, 0, 0, 1, 0, 1, 0, 1, 1, 1};
         int[] outs = {-1, -1, -1, -1, 0, 1, 1, -1, -1, -1, 0, -1, -1};
         int[] states = {1, 2, 3, 4, 4, 4, 5, 6, 7, 4, 5, 8, 2};
         for (int i = 0; i < tms.length; i++) {
             due("clock " + i, x.clock(tms[i], 1), outs[i]);
             due("STATE " + i, x.about(3), states[i]);
-            due("CLOCKS " + i, x.about(4), i + 1);
         }
-        due("clock(2, 0)", x.clock(2, 0), -2);
-        due("clock(0, 2)", x.clock(0, 2), -2);
-        due("clock(-1, 0)", x.clock(-1, 0), -2);
-        due("clock(0, -1)", x.clock(0, -1), -2);
-        due("ACTS", x.about(6), 13);
-        due("CLOCKS", x.about(4), 13);
         int[] orders = {1, 0, 0, 0, 1, 0, 1, 1, 1};
         int[] gone = {9, 10, 11, 11, 12, 13, 14, 15, 2};
         int[] given = {-1, -1, -1, 1, 0, -1, -1, -1, -1};
@@ -139,172 +619,259 @@ public final class ChainTest {
         device(x, 1, 3, -1, 2, 2, 2, 0, 2, 0);
     }
 
-    private static void scanEdges() {
-        ScanBench x = Check.told(TWO);
-        due("scan(-1, 0, 1)", x.scan(-1, 0, 1), -1);
-        due("scan(2, 0, 1)", x.scan(2, 0, 1), -1);
-        due("scan(0, 0, 0)", x.scan(0, 0, 0), -1);
-        due("scan(0, 0, 31)", x.scan(0, 0, 31), -1);
-        due("ACTS", x.about(6), 0);
-        due("scan(0, -1, 30)", x.scan(0, -1, 30), 22 | 0x3ffffe00);
-        ScanBench y = Check.told(TWO);
-        // from PAUSE on nothing is taken in anew, from SHIFT the walk is none
-        for (int tms : new int[] {0, 1, 0, 0, 1, 0}) {
-            y.clock(tms, 0);
+    // ---- 10
+
+    static void p10_whatCantBe() {
+        ScanBench x = told(TWO);
+        clocks(x, 0, 1);
+        x.undo();
+        for (int no : new int[] {-1, 2, Integer.MIN_VALUE, Integer.MAX_VALUE}) {
+            still(x, "scan(" + no + ", 0, 1)", () -> x.scan(no, 0, 1), -1);
         }
-        due("STATE", y.about(3), 6);
-        due("scan from PAUSE", y.scan(0, 0, 8), 11);
-        due("CLOCKS", y.about(4), 6 + 2 + 8 + 2);
-        y.clock(1, 0);
-        y.clock(0, 0);
-        y.clock(0, 0);
-        due("scan from SHIFT", y.scan(0, 0, 9), 22);
-        due("CLOCKS", y.about(4), 21 + 9 + 2);
+        ScanBench y = told(TWO);
+        for (int no : new int[] {0, -1, 31, Integer.MIN_VALUE, Integer.MAX_VALUE}) {
+            still(y, "scan(0, 0, " + no + ")", () -> y.scan(0, 0, no), -1);
+        }
+    }
+
+    static void p10_oneBit() {
+        ScanBench x = new ScanBench();
+        due("scan(0, 1, 1)", x.scan(0, 1, 1), 1);
+        due("CLOCKS", x.about(4), 4 + 1 + 2);
+        due("scan(1, 2, 1)", x.scan(1, 2, 1), 0);
+        due("CLOCKS", x.about(4), 7 + 4 + 1 + 2);
+    }
+
+    static void p10_30Bits() {
+        ScanBench x = new ScanBench();
+        due("all of them", x.scan(0, -1, 30), 0x3fffffff);
+        due("the highest one", x.scan(0, 1 << 29, 30), 1 << 29);
+        due("one too high", x.scan(1, 1 << 30, 30), 0);
+        due("the lowest one", x.scan(1, Integer.MIN_VALUE | 1, 30), 1);
+        due("CLOCKS", x.about(4), 36 + 35 + 36 + 36);
+    }
+
+    static void p10_theLowestFirst() {
+        ScanBench x = told("device a ir 2 cells 1;");
+        due("by way of one bit", x.scan(0, 6, 4), 12);
+        due("by way of one bit", x.scan(0, 9, 3), 2);
+        ScanBench y = told("device a ir 2 cells 1;device b ir 3 cells 1;");
+        due("1 and 1 were in the registers", y.scan(1, 2 | 1 << 3, 5), 1 | 1 << 3);
+        due("the last DEVICE has the lowest ones", y.device(1, 3), 2);
+        due("the first one has the highest ones", y.device(0, 3), 1);
+    }
+
+    static void p10_fromEachState() {
+        for (int state = 0; state < 16; state++) {
+            for (int sort = 0; sort < 2; sort++) {
+                ScanBench x = told(TWO);
+                WalkTest.lead(x, state);
+                int ahead = x.about(4);
+                x.scan(sort, 0, 3);
+                due("CLOCKS from " + state, x.about(4), ahead + WalkTest.far(state, sort == 0 ? 4 : 11) + 3 + 2);
+                due("STATE", x.about(3), 1);
+            }
+        }
+    }
+
+    /** From PAUSE nothing is taken in anew, from SHIFT the walk is none. */
+    static void p10_fromPauseAndShift() {
+        ScanBench x = told(TWO);
+        clocks(x, 0, 1, 0, 0, 1, 0);
+        due("scan from PAUSE", x.scan(0, 0, 8), 11);
+        clocks(x, 1, 0, 0);
+        due("scan from SHIFT", x.scan(0, 0, 9), 22);
         // the walk from SHIFT of ORDERS to that of DATA shifts one bit on its way and gives it out
-        for (int tms : new int[] {1, 1, 0, 0}) {
-            y.clock(tms, 0);
-        }
-        due("STATE", y.about(3), 11);
-        due("scan of DATA from there", y.scan(0, 0, 1), 0);
-        due("ORDER of a", y.device(0, 3), 0);
-        due("ORDER of b", y.device(1, 3), 4);
-        due("CLOCKS", y.about(4), 36 + 5 + 1 + 2);
+        clocks(x, 1, 1, 0, 0);
+        due("STATE", x.about(3), 11);
+        due("scan of DATA from there", x.scan(0, 0, 1), 0);
+        due("ORDER of a", x.device(0, 3), 0);
+        due("ORDER of b", x.device(1, 3), 4);
     }
 
-    private static void registersWithoutBits() {
-        ScanBench x = Check.told("device a ir 2 cells 0;device b ir 2 cells 0;noise 100;");
-        x.scan(1, 0, 4);
-        due("length(0)", x.length(0), 0);
-        due("what comes in goes out", x.scan(0, 21, 5), 21);
-        due("SEED goes on", x.about(5), 71);
-        due("data", x.device(1, 5), 0);
-        due("LATCHES", x.device(1, 7), 0);
-    }
-
-    private static void noise() {
-        for (int noise = 56; noise <= 57; noise++) {
-            ScanBench x = Check.told("device a ir 2 cells 0;device b ir 2 id 3 cells 1;draw 5;noise " + noise + ";");
-            due("SEED", x.about(5), 5);
-            due("noise " + noise, x.scan(0, 0, 9), noise == 56 ? 7 : 6);
-            due("SEED", x.about(5), 756);
-            due("noise once more", x.scan(0, 0, 9), 6);
-            due("SEED", x.about(5), 643);
-        }
-        ScanBench y = new ScanBench();
-        y.scan(0, 0, 1);
-        due("SEED without DEVICES", y.about(5), 71);
-        due("noise of the only one", Check.told("device a ir 2 cells 1;noise 100;").scan(0, 0, 1), 1);
-    }
-
-    private static void manyClocks() {
-        ScanBench x = Check.told(TWO);
-        for (int i = 0; i < 257; i++) {
+    static void p10_behind9000() {
+        ScanBench x = told(TWO);
+        for (int i = 0; i < 256; i++) {
             x.scan(0, 0, 30);
         }
-        due("CLOCKS", x.about(4), 8996);
-        x.clock(0, 0);
-        x.clock(0, 0);
-        x.clock(0, 0);
-        due("CLOCKS", x.about(4), 8999);
-        due("scan behind 8999", x.scan(0, 0, 1), 0);
-        due("CLOCKS", x.about(4), 9005);
-        due("scan behind 9005", x.scan(0, 0, 1), -1);
-        Check.due("undo", x.undo(), true);
+        due("CLOCKS", x.about(4), 36 + 255 * 35);
+        for (int i = x.about(4); i < 8999; i++) {
+            x.clock(0, 0);
+        }
+        due("scan behind 8999", x.scan(0, 0, 30), 22);
+        due("CLOCKS", x.about(4), 8999 + 35);
+        due("undo", x.undo(), true);
         due("clock behind 8999", x.clock(0, 0), -1);
-        due("scan behind 9000", x.scan(0, 0, 1), -1);
-        due("CLOCKS", x.about(4), 9000);
+        still(x, "scan behind 9000", () -> x.scan(0, 0, 30), -1);
+        due("clock behind 9000", x.clock(0, 0), -1);
+        due("scan behind 9001", x.scan(1, 0, 1), -1);
     }
 
-    private static void harm() {
-        ScanBench x = Check.told(TWO + "stuck m 1;open b 1;short n m high;");
-        due("faults", x.about(2), 3);
+    static void p10_latchesAndOrders() {
+        ScanBench x = told(TWO);
+        due("who", x.scan(0, 0, 9), 22);
+        due("TEST, LOOK", x.scan(1, 2, 5), 9);
+        device(x, 0, 2, 5, 3, 0, 0, 0, 3, 0);
+        device(x, 1, 3, -1, 2, 2, 2, 0, 2, 0);
+        due("latches of a", x.scan(0, 12, 5), 0);
+        device(x, 0, 2, 5, 3, 0, 0, 3, 3, 3);
+        device(x, 1, 3, -1, 2, 2, 2, 0, 2, 0);
+        due("what the cells read", x.scan(0, 31, 5), 31);
+        due("LATCHES of a", x.device(0, 7), 7);
+        due("data of b, that looks", x.device(1, 5), 3);
+        due("LATCHES of b, that looks", x.device(1, 7), 0);
+    }
+
+    // ---- 11
+
+    static void p11_noSuchNumber() {
+        ScanBench x = told(TWO);
+        x.clock(0, 0);
+        x.undo();
         due("singles", x.singles(), 8);
-        due("stuck at the other one", x.harm(2), -1);
-        due("short the other way", x.harm(6), -1);
-        due("no such", x.harm(8), -1);
-        due("no such", x.harm(-1), -1);
-        due("ACTS", x.about(6), 0);
-        net(x, 1, 1, 1, -1, 1, 1, 1, 0, 3);
-        due("mended", x.harm(3), 2);
-        net(x, 1, 1, 1, -1, -1, 0, 1, 0, 3);
-        due("made", x.harm(2), 3);
+        for (int no : new int[] {-1, 8, Integer.MIN_VALUE, Integer.MAX_VALUE}) {
+            still(x, "harm(" + no + ")", () -> x.harm(no), -1);
+        }
+        ScanBench none = new ScanBench();
+        still(none, "harm(0) without NETS", () -> none.harm(0), -1);
+    }
+
+    static void p11_stuckAtTheOtherOne() {
+        ScanBench x = told(TWO + "stuck n 0;stuck m 1;");
+        still(x, "n at 1", () -> x.harm(1), -1);
+        still(x, "m at 0", () -> x.harm(2), -1);
+        due("n at 0 is mended", x.harm(0), 1);
+        due("n at 1 is made", x.harm(1), 2);
+        still(x, "n at 0", () -> x.harm(0), -1);
+        due("stuck at", x.net(0, 3), 1);
+    }
+
+    static void p11_shortTheOtherWay() {
+        ScanBench x = told(TWO + "short n m low;");
+        still(x, "high", () -> x.harm(7), -1);
+        due("low is mended", x.harm(6), 0);
+        due("high is made", x.harm(7), 1);
+        still(x, "low", () -> x.harm(6), -1);
+        due("hang together", x.net(0, 7), 3);
+        due("level of both, high", x.net(1, 5), 1);
+    }
+
+    static void p11_mendedIfThereElseMade() {
+        ScanBench x = told(TWO);
+        for (int single = 0; single < 8; single++) {
+            due("made " + single, x.harm(single), 1);
+            due("is there", x.single(single, 3), 1);
+            due("faults", x.about(2), 1);
+            due("mended " + single, x.harm(single), 0);
+            due("is there", x.single(single, 3), 0);
+        }
+        due("ACTS", x.about(6), 16);
+    }
+
+    static void p11_allThatCanBeAtOnce() {
+        ScanBench x = told(TWO);
+        due("n at 1", x.harm(1), 1);
+        due("m at 0", x.harm(2), 2);
+        due("a 2 open", x.harm(4), 3);
+        due("b 1 open", x.harm(5), 4);
+        due("short high", x.harm(7), 5);
+        net(x, 0, 2, 1, 1, 1, 1, 1, 0, 3);
         net(x, 1, 1, 1, -1, 0, 0, 1, 0, 3);
-        due("mended", x.harm(7), 2);
-        net(x, 1, 1, 1, -1, 0, 0, 0, 0, 2);
-        due("made", x.harm(6), 3);
-        net(x, 0, 2, 1, 1, -1, 1, 0, 0, 3);
-        due("unsafe()", x.unsafe(), 1);
-        due("open reads", x.cell(1, 1, 3), 0);
-        due("is open", x.cell(1, 1, 2), 1);
-        due("mended", x.harm(5), 2);
-        due("is open", x.cell(1, 1, 2), 0);
-        due("made", x.harm(4), 3);
-        due("is open", x.cell(0, 2, 2), 1);
-        due("ACTS", x.about(6), 6);
-        due("faults", x.about(2), 3);
+        due("a 2 is open", x.cell(0, 2, 2), 1);
+        due("b 1 is open", x.cell(1, 1, 2), 1);
     }
 
-    private static void levels() {
-        String four = "device a ir 2 cells 6;device b ir 2 cells 6;net p from a 0 to b 0;net q from a 1 to b 1;"
-            + "net r from a 2 to b 2;net s from a 3 to b 3 safe 1;";
-        ScanBench x = Check.told(four + "short s p high;short r q high;short p q high;");
-        due("hang together", x.net(3, 7), 15);
-        due("or", x.net(2, 5), 1);
-        ScanBench y = Check.told(four + "short s p high;short r q low;short p q high;");
-        due("hang together", y.net(0, 7), 15);
-        due("and, by one that is low", y.net(3, 5), 0);
-        ScanBench z = Check.told(four + "short s p high;short q r low;stuck q 1;");
-        due("hang together", z.net(0, 7), 9);
-        due("or", z.net(0, 5), 1);
-        due("and with one that is stuck", z.net(1, 5), 0);
-        due("DRIVE of it", z.net(1, 4), 1);
-        due("fights of one that is stuck at a fight", stuckFight().fights(), 1);
+    // ---- 12, 13
+
+    static void p12_none() {
+        ScanBench x = told(TWO);
+        still(x, "undo()", () -> x.undo() ? 1 : 0, 0);
+        x.clock(0, 0);
+        due("undo()", x.undo(), true);
+        still(x, "undo() once more", () -> x.undo() ? 1 : 0, 0);
     }
 
-    private static ScanBench stuckFight() {
-        ScanBench x = Check.told("device a ir 2 cells 3;net n from a 0 and a 1 to a 2;stuck n 1;");
-        x.scan(1, 0, 2);
-        x.scan(0, 1, 3);
-        return x;
-    }
-
-    private static void undo() {
-        ScanBench x = Check.told(TWO);
-        Check.due("undo of none", x.undo(), false);
-        Check.due("redo of none", x.redo(), false);
-        for (int i = 0; i < 45; i++) {
+    static void p12_40AreKept() {
+        ScanBench x = told(TWO);
+        for (int i = 0; i < 40; i++) {
             x.clock(0, 0);
         }
         due("ACTS", x.about(6), 40);
         for (int i = 0; i < 40; i++) {
-            Check.due("undo " + i, x.undo(), true);
+            due("undo " + i, x.undo(), true);
         }
-        Check.due("undo too far", x.undo(), false);
-        due("CLOCKS", x.about(4), 5);
-        due("redone", x.about(7), 40);
-        for (int i = 0; i < 39; i++) {
-            Check.due("redo " + i, x.redo(), true);
-        }
-        due("CLOCKS", x.about(4), 44);
-        due("redone", x.about(7), 1);
-        x.harm(0);
-        due("redone behind another ACT", x.about(7), 0);
-        Check.due("redo behind another ACT", x.redo(), false);
-        due("ACTS", x.about(6), 40);
-        Check.due("undo", x.undo(), true);
-        due("faults", x.about(2), 0);
-        x.clock(2, 0);
-        x.harm(99);
-        x.scan(0, 0, 0);
-        due("redone, as nothing was done", x.about(7), 1);
-        Check.due("redo", x.redo(), true);
-        due("faults", x.about(2), 1);
-        everyPart();
+        due("CLOCKS", x.about(4), 0);
+        due("undo too far", x.undo(), false);
     }
 
-    /** All that an ACT changes is taken back, and done again. */
-    private static void everyPart() {
-        ScanBench x = Check.told(TWO + "noise 100;");
+    static void p12_theOldestGo() {
+        ScanBench x = told(TWO);
+        for (int i = 0; i < 41; i++) {
+            x.clock(0, 0);
+        }
+        due("ACTS", x.about(6), 40);
+        for (int i = 0; i < 40; i++) {
+            due("undo " + i, x.undo(), true);
+        }
+        due("undo too far", x.undo(), false);
+        due("CLOCKS", x.about(4), 1);
+        due("redone", x.about(7), 40);
+        // round the ring once more, from its middle on
+        for (int i = 0; i < 20; i++) {
+            due("redo " + i, x.redo(), true);
+        }
+        for (int i = 0; i < 65; i++) {
+            x.clock(0, 0);
+        }
+        due("CLOCKS", x.about(4), 86);
+        due("ACTS", x.about(6), 40);
+        for (int i = 0; i < 40; i++) {
+            due("undo " + i, x.undo(), true);
+        }
+        due("undo too far", x.undo(), false);
+        due("CLOCKS", x.about(4), 46);
+    }
+
+    static void p12_actsAreOfThreeSorts() {
+        ScanBench x = told(TWO);
+        x.clock(0, 0);
+        x.scan(1, 0, 5);
+        x.harm(0);
+        due("ACTS", x.about(6), 3);
+        due("undo", x.undo(), true);
+        due("faults", x.about(2), 0);
+        due("CLOCKS", x.about(4), 12);
+        due("undo", x.undo(), true);
+        due("CLOCKS", x.about(4), 1);
+        due("ORDER", x.device(1, 3), 7);
+        due("undo", x.undo(), true);
+        due("CLOCKS", x.about(4), 0);
+    }
+
+    static void p12_whatIsNoAct() {
+        ScanBench x = told(TWO);
+        x.clock(0, 0);
+        x.clock(0, 0);
+        x.undo();
+        x.seen(0, 0, 0, 2, true);
+        x.untell(0);
+        x.later(3);
+        x.walk(0, 4);
+        x.image(0);
+        x.feed(1, 2, 3, 4, 5);
+        x.end(7);
+        due("ACTS", x.about(6), 1);
+        due("redone", x.about(7), 1);
+        due("undo", x.undo(), true);
+        int[] wants = {2, 2, 0, 0, 0, 0, 0, 2, 1, 3, 7, 0, 4, 0};
+        for (int what = 0; what < wants.length; what++) {
+            due("about(" + what + ")", x.about(what), wants[what]);
+        }
+        due("what was UNTOLD", x.untell(0), false);
+    }
+
+    static void p12_allThatAnActChanges() {
+        ScanBench x = told(TWO + "noise 100;");
         for (int single = 1; single < x.singles(); single += 2) {
             x.harm(single);
         }
@@ -314,140 +881,372 @@ public final class ChainTest {
             x.clock(tms, 1);
         }
         int[] was = all(x);
-        due("image(0)", x.image(0), 11);
         for (int i = 0; i < 17; i++) {
             x.undo();
         }
         due("about(6)", x.about(6), 0);
-        due("back to the first", x.about(2), 0);
+        due("faults", x.about(2), 0);
+        device(x, 0, 2, 5, 3, 1, 0, 0, 8, 0);
+        device(x, 1, 3, -1, 2, 7, 0, 0, 1, 0);
+        due("SEED", x.about(5), 0);
         for (int i = 0; i < 17; i++) {
             x.redo();
         }
-        same(x, was, "redone");
+        same("redone", x, was);
+    }
+
+    static void p13_none() {
+        ScanBench x = told(TWO);
+        still(x, "redo()", () -> x.redo() ? 1 : 0, 0);
+        x.clock(0, 0);
+        still(x, "redo() behind an ACT", () -> x.redo() ? 1 : 0, 0);
+        x.undo();
+        due("redo()", x.redo(), true);
+        still(x, "redo() once more", () -> x.redo() ? 1 : 0, 0);
+        due("CLOCKS", x.about(4), 1);
+    }
+
+    static void p13_whatWasTakenBackLast() {
+        ScanBench x = told(TWO);
+        x.clock(0, 0);
+        x.clock(1, 0);
+        x.clock(0, 0);
+        x.undo();
+        x.undo();
+        due("STATE", x.about(3), 1);
+        due("redo", x.redo(), true);
+        due("STATE", x.about(3), 2);
+        due("redone", x.about(7), 1);
+        due("redo", x.redo(), true);
+        due("STATE", x.about(3), 3);
+    }
+
+    static void p13_tillAnotherAct() {
+        for (int act = 0; act < 3; act++) {
+            ScanBench x = told(TWO);
+            x.clock(0, 0);
+            x.clock(0, 0);
+            x.undo();
+            int answer = act == 0 ? x.clock(1, 0) : act == 1 ? x.scan(0, 0, 1) : x.harm(3);
+            due("the ACT", answer >= -1, true);
+            due("redone", x.about(7), 0);
+            due("redo", x.redo(), false);
+            due("ACTS", x.about(6), 2);
+        }
+    }
+
+    static void p13_notByOneThatIsRefused() {
+        ScanBench x = told(TWO + "stuck n 0;");
+        x.clock(0, 0);
+        x.undo();
+        x.clock(2, 0);
+        x.scan(0, 0, 31);
+        x.harm(1);
+        x.harm(8);
+        x.back(0);
+        due("redone", x.about(7), 1);
+        due("redo", x.redo(), true);
+        due("CLOCKS", x.about(4), 1);
+    }
+
+    static void p13_40CanBeRedone() {
+        ScanBench x = told(TWO);
+        for (int i = 0; i < 45; i++) {
+            x.clock(0, 0);
+        }
+        for (int i = 0; i < 40; i++) {
+            x.undo();
+        }
+        due("redone", x.about(7), 40);
+        for (int i = 0; i < 40; i++) {
+            due("redo " + i, x.redo(), true);
+        }
+        due("redo too far", x.redo(), false);
+        due("CLOCKS", x.about(4), 45);
+        due("ACTS", x.about(6), 40);
+    }
+
+    // ---- 14
+
+    static void p14_howManyClocks() {
+        ScanBench x = told(TWO);
+        due("goes(1, 0)", x.goes(1, 0), 0);
+        due("goes(0, 1)", x.goes(0, 1), 1);
+        due("goes(-1, 30)", x.goes(-1, 30), 0);
+        due("goes(0, 30)", x.goes(0, 30), 1);
+        for (int no : new int[] {-1, 31, 32, Integer.MIN_VALUE, Integer.MAX_VALUE}) {
+            due("goes(0, " + no + ")", x.goes(0, no), -1);
+        }
+    }
+
+    static void p14_theLowestFirst() {
+        ScanBench x = told(TWO);
+        due("goes(2, 2)", x.goes(2, 2), 2);
+        due("goes(2, 4)", x.goes(2, 4), 4);
+        due("goes(6, 5)", x.goes(6, 5), 11);
+        due("goes(1 << 29, 30)", x.goes(1 << 29, 30), 2);
+        due("goes(1 << 30, 30)", x.goes(1 << 30, 30), 1);
+    }
+
+    static void p14_fromTheStateNowAndNothingIsDone() {
+        ScanBench x = told(TWO);
+        x.clock(0, 0);
+        still(x, "goes(1, 2)", () -> x.goes(1, 2), 3);
+        still(x, "goes(7, 3)", () -> x.goes(7, 3), 0);
+    }
+
+    // ---- 18 to 21
+
+    static void p18_anotherSort() {
+        ScanBench x = told(TWO);
+        due("length(-1)", x.length(-1), -1);
+        due("length(2)", x.length(2), -1);
+        for (int far : FAR) {
+            due("length(" + far + ")", x.length(far), -1);
+        }
+    }
+
+    static void p18_ofDataAsTheyAre() {
+        ScanBench x = told(TWO);
+        due("WHO and PASS", x.length(0), 9);
+        due("ORDERS", x.length(1), 5);
+        x.scan(1, 0, 5);
+        due("TEST", x.length(0), 5);
+        x.scan(1, 31, 5);
+        due("PASS", x.length(0), 2);
+        due("ORDERS", x.length(1), 5);
+    }
+
+    static void p18_noneAndTheMost() {
+        due("DATA without DEVICES", new ScanBench().length(0), 0);
+        due("ORDERS without DEVICES", new ScanBench().length(1), 0);
+        ScanBench x = told("device a ir 4 id 1 cells 6;device b ir 4 id 2 cells 6;device c ir 4 id 3 cells 6;device d ir 4 id 4 cells 6;");
+        due("DATA", x.length(0), 32);
+        due("ORDERS", x.length(1), 16);
+        x.scan(1, 0, 16);
+        due("DATA", x.length(0), 24);
+        ScanBench none = told("device a ir 2 cells 0;");
+        none.scan(1, 0, 2);
+        due("DATA without bits", none.length(0), 0);
+    }
+
+    static void p19_fromTdoOn() {
+        ScanBench x = told("device a ir 2 id 0 cells 1;device b ir 2 cells 1;device c ir 2 id 127 cells 0;");
+        due("found(0)", x.found(0), 127);
+        due("found(1)", x.found(1), -2);
+        due("found(2)", x.found(2), 0);
+    }
+
+    static void p19_noneSuch() {
+        ScanBench x = told(TWO);
+        due("found(1)", x.found(1), 5);
+        due("found(2)", x.found(2), -1);
+        due("found(-1)", x.found(-1), -1);
+        for (int far : FAR) {
+            due("found(" + far + ")", x.found(far), -1);
+        }
+        due("found(0) without DEVICES", new ScanBench().found(0), -1);
+    }
+
+    static void p19_wereAllInResetWithoutNoise() {
+        ScanBench x = told(TWO + "noise 100;");
+        x.scan(1, 0, 5);
+        still(x, "found(0)", () -> x.found(0), -2);
+        still(x, "found(1)", () -> x.found(1), 5);
+    }
+
+    static void p20_netsThatFight() {
+        ScanBench x = told(TWO);
+        due("none, all driving what is safe", x.fights(), 0);
+        x.scan(1, 2, 5);
+        // a in TEST drives 0, b in LOOK what is safe
+        due("n", x.fights(), 1);
+        due("net(0, 6)", x.net(0, 6), 1);
+        due("one with one DRIVER", x.net(1, 6), 0);
+        x.scan(0, 12, 5);
+        due("none", x.fights(), 0);
+        due("none without NETS", new ScanBench().fights(), 0);
+    }
+
+    static void p20_thoseThatAreStuckToo() {
+        ScanBench x = told("device a ir 2 cells 3;net n from a 0 and a 1 to a 2;stuck n 1;");
+        x.scan(1, 0, 2);
+        x.scan(0, 1, 3);
+        due("fights()", x.fights(), 1);
+    }
+
+    static void p20_notByAShort() {
+        ScanBench x = told(FOUR + "short s p low;");
+        due("fights()", x.fights(), 0);
+    }
+
+    static void p21_none() {
+        due("whole", told(SAFES).unsafe(), 0);
+        due("stuck as they are safe", told(SAFES + "stuck p 0;stuck q 1;stuck r 1;").unsafe(), 0);
+        due("without NETS", new ScanBench().unsafe(), 0);
+    }
+
+    static void p21_netsWithSafeWhoseLevelIsAnotherOne() {
+        due("p", told(SAFES + "stuck p 1;").unsafe(), 1);
+        due("q", told(SAFES + "stuck q 0;").unsafe(), 2);
+        due("both", told(SAFES + "stuck q 0;stuck p 1;stuck r 1;").unsafe(), 3);
+        due("by a short", told(SAFES + "short p q low;").unsafe(), 2);
+        due("by a short", told(SAFES + "short p q high;").unsafe(), 1);
+    }
+
+    static void p21_byWhatTheLatchesAreInTest() {
+        ScanBench x = told(SAFES);
+        x.scan(1, 0, 2);
+        due("LATCHES being 0", x.unsafe(), 2);
+        x.scan(0, 5, 6);
+        due("LATCHES being 1", x.unsafe(), 1);
+        x.scan(1, 2, 2);
+        due("in LOOK", x.unsafe(), 0);
+    }
+
+    // ---- 47, 48
+
+    static void p47_noSuchBox() {
+        ScanBench x = told(TWO);
+        x.clock(0, 0);
+        for (int no : new int[] {-1, 3, Integer.MIN_VALUE, Integer.MAX_VALUE}) {
+            still(x, "image(" + no + ")", () -> x.image(no), -1);
+        }
+        due("back(0)", x.back(0), -1);
+        due("back(2)", x.back(2), -1);
+    }
+
+    static void p47_threeBoxes() {
+        ScanBench x = told(TWO);
+        due("image(0)", x.image(0), 0);
+        x.clock(0, 0);
+        due("image(1)", x.image(1), 1);
+        x.clock(1, 0);
+        due("image(2)", x.image(2), 2);
+        x.clock(0, 0);
+        due("back(0)", x.back(0), 0);
+        due("CLOCKS", x.about(4), 0);
+        due("back(2)", x.back(2), 2);
+        due("CLOCKS", x.about(4), 2);
+        due("back(1)", x.back(1), 1);
+        due("CLOCKS", x.about(4), 1);
+    }
+
+    static void p47_theLatestStaysInABox() {
+        ScanBench x = told(TWO);
+        x.image(1);
+        x.scan(0, 0, 1);
+        due("image(1)", x.image(1), 1);
+        x.scan(0, 0, 1);
+        due("back(1)", x.back(1), 1);
+        due("CLOCKS", x.about(4), 7);
+        due("back(1) once more", x.back(1), 1);
+        due("CLOCKS", x.about(4), 7);
+    }
+
+    static void p47_nothingElseIsDone() {
+        ScanBench x = told(TWO);
+        x.clock(0, 0);
+        x.clock(0, 0);
+        x.undo();
+        still(x, "image(0)", () -> x.image(0), 1);
+    }
+
+    static void p48_nothingWasKept() {
+        ScanBench x = told(TWO);
+        x.image(1);
+        x.clock(0, 0);
+        x.clock(0, 0);
+        x.undo();
+        for (int no : new int[] {0, 2, -1, 3, Integer.MIN_VALUE, Integer.MAX_VALUE}) {
+            still(x, "back(" + no + ")", () -> x.back(no), -1);
+        }
+        due("redo()", x.redo(), true);
+    }
+
+    static void p48_noActsAreKept() {
+        ScanBench x = told(TWO);
+        x.image(0);
+        x.clock(0, 0);
+        x.clock(0, 0);
+        x.undo();
+        due("back(0)", x.back(0), 0);
+        due("ACTS", x.about(6), 0);
+        due("redone", x.about(7), 0);
+        due("undo()", x.undo(), false);
+        due("redo()", x.redo(), false);
+        x.clock(0, 0);
+        due("undo()", x.undo(), true);
+        due("STATE", x.about(3), 0);
+    }
+
+    static void p48_allIsAsItWasKept() {
+        ScanBench x = told(TWO + "noise 100;");
+        for (int single = 1; single < x.singles(); single += 2) {
+            x.harm(single);
+        }
+        x.scan(1, 16, 5);
+        x.scan(0, 31, 5);
+        for (int tms : new int[] {1, 0, 0, 0, 1, 1, 1, 1, 0, 0, 0}) {
+            x.clock(tms, 1);
+        }
+        int[] was = all(x);
+        was[6] = 0;
+        due("image(0)", x.image(0), 11);
         x.scan(1, 9, 5);
         x.harm(1);
         x.harm(5);
         x.harm(7);
         x.scan(0, 5, 6);
         due("back(0)", x.back(0), 11);
-        same(x, was, "back");
+        same("back", x, was);
     }
 
-    private static int[] all(ScanBench x) {
-        int[] all = new int[40];
-        for (int i = 0; i < 8; i++) {
-            all[i] = x.device(0, i);
-            all[8 + i] = x.device(1, i);
-            all[16 + i] = x.net(0, i);
-            all[24 + i] = x.net(1, i);
-            all[32 + i] = x.single(i, 3);
-        }
-        return all;
-    }
-
-    private static void same(ScanBench x, int[] was, String what) {
-        int[] is = all(x);
-        for (int i = 0; i < was.length; i++) {
-            due(what + ", part " + i, is[i], was[i]);
-        }
-        due(what + ", STATE", x.about(3), 11);
-    }
-
-    private static void goes() {
-        ScanBench x = Check.told(TWO);
-        due("goes(0, 0)", x.goes(0, 0), 0);
-        due("goes(5, 0)", x.goes(5, 0), 0);
-        due("goes(2, 4)", x.goes(2, 4), 4);
-        due("goes(6, 5)", x.goes(6, 5), 11);
-        due("goes(-1, 30)", x.goes(-1, 30), 0);
-        due("goes(1 << 29, 30)", x.goes(1 << 29, 30), 2);
-        due("goes(0, 31)", x.goes(0, 31), -1);
-        due("goes(0, -1)", x.goes(0, -1), -1);
-        x.clock(0, 0);
-        due("goes(1, 2)", x.goes(1, 2), 3);
-        due("STATE stays", x.about(3), 1);
-    }
-
-    private static void boxes() {
-        ScanBench x = Check.told(TWO + "noise 100;");
-        x.scan(1, 0, 5);
-        x.scan(0, 7, 5);
-        x.harm(0);
-        x.clock(1, 0);
-        due("image(2)", x.image(2), 2);
-        due("image(3)", x.image(3), -1);
-        due("image(-1)", x.image(-1), -1);
-        due("back(0)", x.back(0), -1);
-        due("back(3)", x.back(3), -1);
-        due("back(-1)", x.back(-1), -1);
-        due("ACTS", x.about(6), 4);
-        int[] kept = {2, 0, 1, 2, x.about(4), 71};
-        x.harm(0);
-        x.scan(1, 31, 5);
-        x.scan(0, 0, 3);
+    static void p48_whatIsNotInABoxStays() {
+        ScanBench x = told(TWO);
+        x.image(0);
         x.seen(0, 0, 1, 1, true);
         x.later(4);
         x.walk(0, 1);
-        x.undo();
-        due("back(2)", x.back(2), 2);
-        due("faults", x.about(2), 1);
-        due("CLOCKS", x.about(4), kept[4]);
-        due("SEED", x.about(5), 71);
-        due("ACTS", x.about(6), 0);
-        due("redone", x.about(7), 0);
-        due("SEEN stays", x.about(8), 1);
-        due("TIME stays", x.about(9), 4);
-        due("lies there still", x.about(12), 1);
-        device(x, 0, 2, 5, 3, 0, 0, 1, 3, 1);
-        device(x, 1, 3, -1, 2, 0, 0, 3, 2, 3);
+        x.feed(1, 2, 3, 4, 5);
+        due("back(0)", x.back(0), 0);
+        due("SEEN", x.about(8), 1);
+        due("TIME", x.about(9), 4);
+        due("TAPE", x.about(10), 20);
+        due("what lies there", x.about(12), 1);
+    }
+
+    // ---- 49
+
+    static void p49_each() {
+        ScanBench x = told(TWO + "stuck n 1;open a 2;noise 100;draw 999;floats 1+cell;");
+        x.scan(1, 0, 5);
+        x.scan(0, 0, 1);
+        x.clock(1, 0);
         x.clock(0, 0);
-        due("back(2) once more", x.back(2), 2);
-        due("about(14)", x.about(14), -1);
+        x.undo();
+        x.walk(0, 4);
+        x.seen(0, 0, 1, 1, true);
+        x.seen(0, 0, 1, 1, true);
+        x.untell(0);
+        x.later(1000);
+        x.feed(0, 0, 0, 0, 0);
+        int[] wants = {2, 2, 2, 2, 12 + 6 + 1, 934, 3, 1, 2, 1000, 20, 2, 4, 100};
+        for (int what = 0; what < wants.length; what++) {
+            due("about(" + what + ")", x.about(what), wants[what]);
+        }
+    }
+
+    static void p49_anotherWhat() {
+        ScanBench x = told(TWO);
         due("about(-1)", x.about(-1), -1);
-    }
-
-    private static void formula(String e, boolean above) {
-        ScanBench x = Check.told("device a ir 2 cells 1;device b ir 2 cells 5;net m from b 0 to b 1;"
-            + "net n from b 2 to b 4 b 3;open b 3;floats " + e + ";");
-        due("floats " + e, x.cell(1, 3, 3), above ? 1 : 0);
-        due("what is not open", x.cell(1, 4, 3), 0);
-    }
-
-    private static void formulas() {
-        for (String e : new String[] {"device=1", "cell=3", "net=1", "clock=0", "7/2=3", "(0-7)/2=0-3", "(0-7)%3=0-1",
-            "5/0=0", "5%0=0", "1+2*3=7", "10-3-2=5", "100/10/5=2", "17%10*2=14", "not 0", "not 1=2", "(2 and 3)=1",
-            "(0 or 5)=1", "1 or 0 and 0", "not 0 and 1", "(not 0)+1=2", "(3>3)=0", "(2<3)+(3>2)=2", "(3<3)=0", "0 or 0-1", "9999"}) {
-            formula(e, true);
+        due("about(14)", x.about(14), -1);
+        for (int far : FAR) {
+            due("about(" + far + ")", x.about(far), -1);
         }
-        for (String e : new String[] {"0", "0-1", "not 2", "1 and 0", "2=3", "0*5", "clock", "(1 or 0)*0", "0-9999"}) {
-            formula(e, false);
-        }
-        // 50000 * 50000 is more than an int has, and wraps below 0
-        formula("(5000*10)*(5000*10)<0", true);
-        formula("0-(5000*10)*(5000*10)", true);
-        ScanBench x = Check.told("device a ir 2 cells 2;net n from a 0 to a 1;open a 1;floats clock%2;");
-        due("clock 0", x.cell(0, 1, 3), 0);
-        due("LOOK", x.scan(1, 2, 2), 1);
-        due("clock 9", x.cell(0, 1, 3), 1);
-        due("taken in behind 11 CLOCKS", x.scan(0, 0, 2), 2);
-        due("taken in behind 16 and 2", x.scan(0, 0, 2), 0);
     }
 
-    public static void main(String[] args) {
-        atFirst();
-        scans();
-        reset();
-        clocks();
-        scanEdges();
-        registersWithoutBits();
-        noise();
-        manyClocks();
-        harm();
-        levels();
-        undo();
-        goes();
-        boxes();
-        formulas();
-        Check.finish("ChainTest");
+    public static void main(String[] args) throws Exception {
+        run(ChainTest.class);
     }
 }

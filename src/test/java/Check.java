@@ -1,22 +1,62 @@
-/** What the tests share: telling a board by a text, and counting what is not as due. */
-final class Check {
+import java.lang.reflect.InvocationTargetException;
+import java.lang.reflect.Method;
+import java.util.ArrayList;
+import java.util.Arrays;
+import java.util.Comparator;
+import java.util.List;
+import java.util.function.IntSupplier;
+
+/** What the tests share, as a class above theirs: running them, telling a board by a text, counting what is not as due. */
+abstract class Check {
+    /** No index, kind, what, box: for calls that have to refuse them. */
+    static final int[] FAR = {Integer.MIN_VALUE, Integer.MIN_VALUE + 1, -1000000, 1000000, Integer.MAX_VALUE};
+
     private static int wrong = 0;
     private static int count = 0;
-
-    private Check() {
-    }
+    private static String test = "";
 
     static void due(String what, long got, long want) {
         count++;
         if (got != want) {
             wrong++;
-            System.out.println(what + " answered " + got + ", due is " + want);
+            System.out.println(test + what + " answered " + got + ", due is " + want);
         }
     }
 
     static void due(String what, boolean got, boolean want) {
         due(what, got ? 1 : 0, want ? 1 : 0);
     }
+
+    /** The tests of a class: its methods that are named by their promise, as p07_name, in the order of their names. */
+    static List<Method> testsOf(Class<?> tests) {
+        List<Method> all = new ArrayList<>();
+        for (Method method : tests.getDeclaredMethods()) {
+            if (method.getName().matches("p\\d\\d_.*")) {
+                all.add(method);
+            }
+        }
+        all.sort(Comparator.comparing(Method::getName));
+        return all;
+    }
+
+    static void run(Class<?> tests) throws IllegalAccessException {
+        for (Method method : testsOf(tests)) {
+            test = method.getName() + ": ";
+            int before = count;
+            try {
+                method.setAccessible(true);
+                method.invoke(null);
+            } catch (InvocationTargetException e) {
+                e.getCause().printStackTrace(System.out);
+                due("what was thrown", 1, 0);
+            }
+            due("that nothing was asked", count > before, true);
+        }
+        test = "";
+        finish(tests.getSimpleName());
+    }
+
+    // ---- boards
 
     /** Puts the text on the tape, byte by byte; the tape has to be empty. */
     static void put(ScanBench x, String text) {
@@ -45,6 +85,68 @@ final class Check {
             due("board of " + text + ", fault " + x.fault(0) + " at " + x.fault(1), 1, 0);
         }
         return x;
+    }
+
+    static void fault(String text, int fault, int place) {
+        ScanBench x = new ScanBench();
+        String shown = text.replace('\n', '|');
+        due("board of " + shown, tell(x, text) < 0, fault != 0);
+        due("fault(0) of " + shown, x.fault(0), fault);
+        due("fault(1) of " + shown, x.fault(1), place);
+    }
+
+    /** The fault is where the sign ^ stands in the text, which is taken out. */
+    static void faultAt(int fault, String text) {
+        fault(text.replace("^", ""), fault, text.indexOf('^'));
+    }
+
+    static void fine(String text) {
+        fault(text, 0, -1);
+    }
+
+    // ---- refused calls
+
+    /** All that can be seen of an object by calls that do nothing. */
+    static int[] all(ScanBench x) {
+        List<Integer> all = new ArrayList<>();
+        for (int what = 0; what < 14; what++) {
+            all.add(x.about(what));
+        }
+        all.add(x.fault(0));
+        all.add(x.fault(1));
+        for (int d = 0; d < x.about(0); d++) {
+            for (int what = 0; what < 8; what++) {
+                all.add(x.device(d, what));
+            }
+            for (int c = 0; c < x.device(d, 2); c++) {
+                all.add(x.cell(d, c, 3));
+            }
+        }
+        for (int n = 0; n < x.about(1); n++) {
+            for (int what = 2; what < 8; what++) {
+                all.add(x.net(n, what));
+            }
+        }
+        for (int i = 0; i < x.singles(); i++) {
+            all.add(x.single(i, 3));
+        }
+        for (int i = 0; i < x.about(12); i++) {
+            all.add(x.lies(i));
+        }
+        all.add(x.fits(Integer.MAX_VALUE));
+        return all.stream().mapToInt(i -> i).toArray();
+    }
+
+    static void same(String what, ScanBench x, int[] was) {
+        int[] is = all(x);
+        due(what + ": all stays as it was: " + Arrays.toString(was) + ", now " + Arrays.toString(is), Arrays.equals(is, was), true);
+    }
+
+    /** A call that is refused, or only looks: its answer, and nothing is another thing behind it. */
+    static void still(ScanBench x, String what, IntSupplier call, int want) {
+        int[] was = all(x);
+        due(what, call.getAsInt(), want);
+        same(what, x, was);
     }
 
     static void finish(String name) {
