@@ -184,6 +184,41 @@ public final class ChainTest extends Check {
         }
     }
 
+    static void p07_driveByLatchesOfThoseInTestAlone() {
+        ScanBench x = told("device a ir 2 cells 2;device b ir 2 cells 2;device c ir 2 cells 2;device d ir 2 cells 2;"
+            + "net k from a 0 to a 1 safe 1;net l from b 0 to b 1 safe 1;net m from c 0 to c 1 safe 1;net n from d 0 to d 1 safe 1;");
+        for (int test = 0; test < 4; test++) {
+            // a has the highest two bits
+            int look = 2 | 2 << 2 | 2 << 4 | 2 << 6;
+            x.scan(1, look & ~(3 << 6 - 2 * test), 8);
+            for (int net = 0; net < 4; net++) {
+                due("DRIVE of " + net + " with " + test + " in TEST", x.net(net, 4), net == test ? 0 : 1);
+            }
+        }
+    }
+
+    /** Six nets, each with a driver in a and in b; all in TEST. */
+    private static ScanBench doublyDriven() {
+        StringBuilder text = new StringBuilder("device a ir 2 cells 6;device b ir 2 cells 6;device c ir 2 cells 6;");
+        for (int n = 0; n < 6; n++) {
+            text.append("net ").append((char) ('p' + n)).append(" from a ").append(n).append(" and b ").append(n);
+            text.append(" to c ").append(n).append(";");
+        }
+        ScanBench x = told(text.toString());
+        x.scan(1, 0, 6);
+        return x;
+    }
+
+    static void p07_eachNetFightsByItself() {
+        ScanBench x = doublyDriven();
+        for (int fighting = 0; fighting < 6; fighting++) {
+            x.scan(0, 1 << 12 + fighting, 18);
+            for (int net = 0; net < 6; net++) {
+                due("net(" + net + ", 6)", x.net(net, 6), net == fighting ? 1 : 0);
+            }
+        }
+    }
+
     static void p07_stuckIsItsDrive() {
         for (int at = 0; at < 2; at++) {
             ScanBench x = told("device a ir 2 cells 3;net n from a 0 and a 1 to a 2;stuck n " + at + ";");
@@ -273,6 +308,13 @@ public final class ChainTest extends Check {
         cell(x, 0, 2, 1, 1, 0, 0);
     }
 
+    static void p08_theFirstCellOpen() {
+        String first = "device a ir 2 cells 2;net n from a 1 to a 0;open a 0;";
+        cell(told(first), 0, 0, 0, 1, 1, 0);
+        cell(told(first + "floats 1;"), 0, 0, 0, 1, 1, 1);
+        cell(told(first + "floats 0-1;"), 0, 0, 0, 1, 1, 0);
+    }
+
     private static void formula(String e, boolean above) {
         ScanBench x = told("device a ir 2 cells 1;device b ir 2 cells 5;net m from b 0 to b 1;"
             + "net n from b 2 to b 4 b 3;open b 3;floats " + e + ";");
@@ -293,6 +335,10 @@ public final class ChainTest extends Check {
         formula("device=1", true);
         formula("cell=3", true);
         formula("net=1", true);
+        formula("device+1=2", true);
+        formula("cell+1=4", true);
+        formula("net+1=2", true);
+        formula("clock+1=1", true);
         ScanBench x = told("device a ir 2 cells 3;net m from a 1 to a 0;open a 0;floats 1-device-cell-net-clock;");
         due("all of the first are 0", x.cell(0, 0, 3), 1);
         ScanBench y = told("device a ir 2 cells 6;device b ir 2 cells 6;device c ir 2 cells 6;device d ir 2 cells 6;net a from a 0 to a 1;"
@@ -361,6 +407,9 @@ public final class ChainTest extends Check {
         due("behind two", x.cell(0, 1, 3), 0);
         x.undo();
         due("behind one again", x.cell(0, 1, 3), 1);
+        ScanBench nought = told("device a ir 2 cells 2;net n from a 0 to a 1;open a 1;floats 0;");
+        nought.clock(0, 0);
+        due("0 behind one is 0", nought.cell(0, 1, 3), 0);
     }
 
     static void p08_clocksThereWereAtACapture() {
@@ -389,10 +438,10 @@ public final class ChainTest extends Check {
     /** So many clocks take more than 512 calls; what is told of them holds for all that. */
     static void p09_behind9999() {
         ScanBench x = told(TWO);
-        while (x.about(4) < 9000) {
+        for (int i = 0; i < 300 && x.about(4) < 9000; i++) {
             x.scan(1, 0, 30);
         }
-        while (x.about(4) < 9998) {
+        for (int i = x.about(4); i < 9998; i++) {
             x.clock(0, 0);
         }
         due("clock behind 9998", x.clock(0, 0), -1);
@@ -480,6 +529,30 @@ public final class ChainTest extends Check {
             due("CAPTURE gives out nothing", x.clock(1, 1), -1);
             due("data in " + order, x.device(0, 5), wants[order]);
         }
+    }
+
+    static void p09_eachTakesInItsOwnCells() {
+        ScanBench x = told("device a ir 2 cells 2;device b ir 2 cells 1;device c ir 2 cells 6;device d ir 2 cells 4;"
+            + "net k from c 0 to c 1 c 2 c 3 safe 1;net m from d 3 to b 0 safe 1;net n from c 5 to a 1 safe 1;");
+        x.scan(1, 2 | 2 << 2 | 2 << 4 | 2 << 6, 8);
+        clocks(x, 1, 0, 0);
+        int[] wants = {2, 1, 15 | 32, 8};
+        for (int d = 0; d < 4; d++) {
+            due("data of " + d, x.device(d, 5), wants[d]);
+        }
+    }
+
+    static void p09_fourDevicesWithTheirCells() {
+        ScanBench x = told("device a ir 4 cells 6;device b ir 3 cells 6;device c ir 2 cells 6;device d ir 4 id 1 cells 6;"
+            + "net k from a 0 to d 5 safe 1;");
+        x.scan(1, 0, 13);
+        due("what they read", x.scan(0, 41 | 42 << 6 | 43 << 12 | 44 << 18, 24), 0);
+        for (int d = 0; d < 4; d++) {
+            due("LATCHES of " + d, x.device(d, 7), 44 - d);
+            due("ORDER of " + d, x.device(d, 3), 0);
+        }
+        x.scan(0, 1 << 18, 24);
+        due("what a 0 drives d 5 reads", x.scan(0, 0, 24), 32 | 1 << 18);
     }
 
     static void p09_resetByAClockDoneInReset() {
@@ -768,6 +841,14 @@ public final class ChainTest extends Check {
         due("ACTS", x.about(6), 16);
     }
 
+    static void p11_theFirstCellOpen() {
+        ScanBench x = told("device a ir 2 cells 2;net n from a 1 to a 0;");
+        due("made", x.harm(2), 1);
+        due("is open", x.cell(0, 0, 2), 1);
+        due("mended", x.harm(2), 0);
+        due("is open", x.cell(0, 0, 2), 0);
+    }
+
     static void p11_allThatCanBeAtOnce() {
         ScanBench x = told(TWO);
         due("n at 1", x.harm(1), 1);
@@ -868,6 +949,21 @@ public final class ChainTest extends Check {
             due("about(" + what + ")", x.about(what), wants[what]);
         }
         due("what was UNTOLD", x.untell(0), false);
+    }
+
+    static void p12_eachSingleFault() {
+        ScanBench x = told(TWO);
+        for (int single = 0; single < 8; single++) {
+            x.harm(single);
+            due("undo", x.undo(), true);
+            due("is there, " + single + " taken back", x.single(single, 3) + x.about(2), 0);
+            due("redo", x.redo(), true);
+            due("is there, " + single + " done again", x.single(single, 3) + x.about(2), 2);
+            x.harm(single);
+            due("undo", x.undo(), true);
+            due("is there, its mending taken back", x.single(single, 3) + x.about(2), 2);
+            due("undo", x.undo(), true);
+        }
     }
 
     static void p12_allThatAnActChanges() {
@@ -1066,6 +1162,20 @@ public final class ChainTest extends Check {
         x.scan(0, 12, 5);
         due("none", x.fights(), 0);
         due("none without NETS", new ScanBench().fights(), 0);
+    }
+
+    static void p20_eachOfSixAndAll() {
+        ScanBench x = doublyDriven();
+        for (int n = 0; n < 6; n++) {
+            x.scan(0, 1 << 12 + n, 18);
+            due("fights()", x.fights(), 1 << n);
+            x.scan(0, 1 << 6 + n, 18);
+            due("fights()", x.fights(), 1 << n);
+        }
+        x.scan(0, 63 << 12, 18);
+        due("fights()", x.fights(), 63);
+        x.scan(0, 63 << 12 | 63 << 6, 18);
+        due("fights()", x.fights(), 0);
     }
 
     static void p20_thoseThatAreStuckToo() {

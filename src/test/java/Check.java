@@ -123,7 +123,7 @@ abstract class Check {
             }
         }
         for (int n = 0; n < x.about(1); n++) {
-            for (int what = 2; what < 8; what++) {
+            for (int what = 0; what < 8; what++) {
                 all.add(x.net(n, what));
             }
         }

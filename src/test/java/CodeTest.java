@@ -18,6 +18,9 @@ public final class CodeTest extends Check {
         return text.toString();
     }
 
+    /** The nets' receivers begin by the first cell of all. */
+    private static final String FIRST = DEVICES + "net p from b 0 to a 0;net q from b 1 to a 1;net r from b 2 to a 2 safe 0;";
+
     // ---- 22
 
     static void p22_fromNoNetsTo6() {
@@ -165,6 +168,12 @@ public final class CodeTest extends Check {
         due("stuck at what is safe", told(SAFE + "stuck r 0;").good(2), 3);
     }
 
+    static void p25_theFirstCell() {
+        due("whole", told(FIRST).good(0), 3);
+        due("open", told(FIRST + "open a 0;").good(0), 2);
+        due("stuck", told(FIRST + "stuck p 1;").good(1), 2);
+    }
+
     static void p25_anotherKind() {
         ScanBench x = told(THREE);
         for (int no : NO_KINDS) {
@@ -197,6 +206,13 @@ public final class CodeTest extends Check {
         String two = DEVICES + "net p from a 0 to b 0 b 3;net q from a 1 to b 1;net r from a 2 to b 2 safe 0;";
         due("one open, one not", told(two + "open b 0;stuck p 0;").aliased(0), 1);
         due("one open, one GOOD", told(two + "open b 0;").aliased(0), 0);
+    }
+
+    static void p26_theFirstCellAndTheLastNet() {
+        due("p answers as r is told", told(FIRST + "stuck p 0;").aliased(0), 1);
+        due("the last of 6 answers 2 and 4", told(nets(6) + "short p u low;").aliased(0), 0);
+        due("the last of 6 answers as the second", told(nets(6) + "short q u low;").aliased(0), 32);
+        due("the second of 6 answers as the last", told(nets(6) + "short q u high;").aliased(0), 2);
     }
 
     static void p26_anotherKind() {
@@ -243,6 +259,15 @@ public final class CodeTest extends Check {
         ScanBench x = told(THREE + "open b 0;stuck q 0;");
         due("p, b 1 of it being GOOD", x.confounded(0, 0), 2);
         due("q", x.confounded(0, 1), 1);
+    }
+
+    static void p27_theFirstCellAndTheLastNet() {
+        ScanBench x = told(FIRST + "stuck p 0;stuck q 0;");
+        due("p", x.confounded(0, 0), 2);
+        due("q", x.confounded(0, 1), 1);
+        ScanBench six = told(nets(6) + "stuck p 1;stuck u 1;");
+        due("the first", six.confounded(1, 0), 32);
+        due("the last", six.confounded(1, 5), 1);
     }
 
     static void p27_oneThatCantBe() {
@@ -301,6 +326,13 @@ public final class CodeTest extends Check {
         verdicts(THREE + "short p q low;open b 2;", 1, 4, 1, 0);
         // one GOOD, one that answers like r
         verdicts(THREE + "open b 1;floats 1;short p r high;", 0, 4, 0, 0);
+    }
+
+    static void p28_theFirstCellAndTheLastNet() {
+        verdicts(FIRST + "short p q low;", 1, 3, 3, 0);
+        verdicts(FIRST + "stuck p 1;", 0, 2, 0, 0);
+        verdicts(FIRST + "open a 0;", 0, 1, 0, 0);
+        verdicts(nets(6) + "short q u low;", 1, 0, 3, 0, 0, 0, 3);
     }
 
     static void p28_oneThatCantBe() {
@@ -476,6 +508,11 @@ public final class CodeTest extends Check {
             + "stuck p 1;stuck r 1;").worst(), 2);
     }
 
+    static void p37_theLastNet() {
+        due("u", told(nets(6) + "stuck u 1;").worst(), 5);
+        due("none of 6", told(nets(6)).worst(), -1);
+    }
+
     static void p37_ofLikeOnesTheFirst() {
         due("q and r", told(THREE + "stuck q 1;stuck r 1;").worst(), 1);
         due("p with one of two, q", told(THREE + "open b 1;stuck q 1;").worst(), 0);
@@ -493,6 +530,15 @@ public final class CodeTest extends Check {
         due("law(0)", y.law(0), 1);
         due("law(1)", y.law(1), 2);
         due("good", y.good(0), 1);
+    }
+
+    static void p38_theFirstCellOpen() {
+        ScanBench x = told(FIRST.replace("a 0;", "a 0 safe 0;") + "open a 0;floats 1;");
+        due("law(0)", x.law(0), 3);
+        due("law(1)", x.law(1), 2);
+        ScanBench y = told(FIRST.replace("a 0;", "a 0 safe 1;") + "open a 0;");
+        due("law(0)", y.law(0), 2);
+        due("law(1)", y.law(1), 3);
     }
 
     static void p38_nothingOpen() {

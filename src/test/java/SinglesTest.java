@@ -164,6 +164,13 @@ public final class SinglesTest extends Check {
         due("q short to what is safe at 1, high", y.apart(2, 3, y.singles() - 5), 0);
     }
 
+    static void p31_theLastStepOfAllCodes() {
+        ScanBench x = told(most());
+        due("the last NET stuck at 0 by WALKING", x.apart(2, 10, -1), 1);
+        due("the last NET stuck at 0 by BOTH", x.apart(1, 10, -1), 1);
+        due("the last two short, low and high", x.apart(2, 58, 59), 1);
+    }
+
     static void p31_whatThereIsAndTheClockDontMatter() {
         ScanBench x = told(THREE + "floats 1-clock;");
         due("open reads as at clock 0: 1", x.apart(0, 8, 3), 0);
@@ -201,7 +208,11 @@ public final class SinglesTest extends Check {
         due("COUNT, from all: not stuck at 0, open", one.told(0, 1), 1);
         due("WALKING, from none: not stuck at 1", one.told(2, 0), 2);
         due("WALKING, from all", one.told(2, 1), 0);
-        due("the most", told(most()).told(0, 0), 60);
+        ScanBench most = told(most());
+        for (int kind = 0; kind < 3; kind++) {
+            due("the most, from none", most.told(kind, 0), 60);
+            due("the most, from all", most.told(kind, 1), 60);
+        }
     }
 
     static void p32_fromNoneToo() {
@@ -470,6 +481,30 @@ public final class SinglesTest extends Check {
         fits(y, 0, -1, 1, 2, 3, 4, 5, 7, 8, 9, 11, 12, 13, 14, 15);
     }
 
+    static void p44_byEachCode() {
+        ScanBench both = told(THREE);
+        both.seen(1, 5, 1, 2, false);
+        // in the last step of BOTH all are 1: q stuck at 0, b 2 open
+        fits(both, 0, 2, 8);
+        ScanBench walking = told(THREE);
+        walking.seen(2, 2, 1, 0, true);
+        // in the last step of WALKING r alone is 1: p stuck at 1, p r short high
+        fits(walking, 0, 1, 13);
+        ScanBench count = told(THREE);
+        count.seen(0, 2, 1, 0, true);
+        // in the last step of COUNT all are 0: p stuck at 1
+        fits(count, 0, 1);
+    }
+
+    static void p44_ofTheMost() {
+        ScanBench x = told(most());
+        x.seen(2, 5, 3, 5, false);
+        // u is not 1 though it is told so: stuck at 0, d 5 open, short low to any other
+        fits(x, 0, 10, 29, 38, 46, 52, 56, 58);
+        x.seen(2, 5, 2, 5, true);
+        fits(x, 0, 29);
+    }
+
     static void p44_whatThereIsAndTheClockDontMatter() {
         ScanBench x = told(THREE + "floats 1-clock;stuck p 0;");
         x.clock(0, 0);
@@ -524,6 +559,18 @@ public final class SinglesTest extends Check {
         x.seen(0, 0, 1, 0, false);
         ask(x, 0, 0, 0, 2);
         ask(x, 2, 0, 0, 2);
+    }
+
+    static void p46_ofTheMost() {
+        ScanBench x = told(most());
+        x.seen(2, 5, 3, 5, false);
+        // of the seven that fit each step of WALKING tells one from six, each step of COUNT and of BOTH leaves four together
+        ask(x, 2, 0, 0, 6);
+        ask(x, 0, 0, 0, 4);
+        ask(x, 1, 0, 0, 4);
+        x.seen(2, 5, 2, 5, true);
+        ask(x, 2, 0, 0, 1);
+        ask(x, 1, 0, 0, 1);
     }
 
     static void p46_oneThatFits() {

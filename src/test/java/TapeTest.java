@@ -141,13 +141,20 @@ public final class TapeTest extends Check {
         String[] texts = {"draw 7x;", "draw 75;", "draw 7;$"};
         int[] ends = {6, 6, 7};
         for (int i = 0; i < texts.length; i++) {
-            ScanBench x = new ScanBench();
-            put(x, texts[i]);
-            due("end", x.end(ends[i]), ends[i]);
-            due("board of " + texts[i] + " to " + ends[i], x.board(), i == 2 ? 0 : -1);
-            due("fault(0)", x.fault(0), i == 2 ? 0 : 2);
-            due("fault(1)", x.fault(1), i == 2 ? -1 : 6);
+            cut(texts[i], ends[i], i == 2 ? 0 : 2, i == 2 ? -1 : 6);
         }
+        cut("draw 1;net", 9, 2, 7);
+        cut("device abcdefghi", 15, 2, 15);
+        cut("floats 12345", 11, 2, 11);
+    }
+
+    private static void cut(String text, int end, int fault, int place) {
+        ScanBench x = new ScanBench();
+        put(x, text);
+        due("end", x.end(end), end);
+        due("board of " + text + " to " + end, x.board(), fault == 0 ? 0 : -1);
+        due("fault(0)", x.fault(0), fault);
+        due("fault(1)", x.fault(1), place);
     }
 
     // ---- 4
@@ -175,6 +182,8 @@ public final class TapeTest extends Check {
         x.image(2);
         x.scan(1, 0, 2);
         x.scan(0, 1, 2);
+        x.scan(1, 2, 2);
+        x.scan(0, 3, 2);
         x.harm(2);
         x.clock(1, 0);
         x.clock(1, 0);
@@ -224,6 +233,40 @@ public final class TapeTest extends Check {
         due("what is open reads", x.cell(0, 1, 3), 0);
         due("id", x.device(0, 1), -1);
         due("safe", x.net(0, 2), -1);
+    }
+
+    /** Of a text that was told once, and of one that was no board, nothing is left, however many were told ahead. */
+    static void p04_nothingOfAnEarlierTextIsLeft() {
+        String plain = "device a ir 2 cells 6;device b ir 2 cells 6;net n from a 0 to b 1;net m from a 2 to b 3;";
+        String rich = "device a ir 4 id 3 cells 6;device b ir 3 cells 6;net m from b 0 and b 1 to a 1 b 2 safe 1;net k from a 2 to a 3;"
+            + "net l from a 4 to a 5 safe 0;short m k low;short k l high;stuck k 1;stuck m 0;open a 1;open a 3;floats 1 or cell;"
+            + "noise 7;draw 5;";
+        ScanBench fresh = told(plain);
+        fresh.harm(4);
+        int[] due = all(fresh);
+        for (String[] texts : new String[][] {{rich}, {rich, rich}, {rich, plain}, {rich, ""}, {rich, rich, rich}, {rich + "$"},
+            {rich, rich + "$", plain + "$"}}) {
+            ScanBench x = new ScanBench();
+            for (String text : texts) {
+                due("board", tell(x, text) < 0, text.endsWith("$"));
+                x.clock(0, 0);
+            }
+            due("board", tell(x, plain), 2);
+            x.harm(4);
+            same("plain behind " + String.join(" | ", texts), x, due);
+        }
+    }
+
+    /** What single faults do is worked out anew. */
+    static void p04_whatTellsThemApartIsOfTheNewBoard() {
+        ScanBench x = told(ONE + "stuck n 1;");
+        due("told ahead", x.told(2, 0), 2);
+        due("fits ahead", x.fits(0), 4);
+        tell(x, "device a ir 2 cells 4;net n from a 0 to a 1;net m from a 2 to a 3 safe 1;");
+        due("told", x.told(2, 0), 7);
+        due("least", x.least(), -1);
+        due("m stuck at 1", x.apart(2, 3, -1), 0);
+        due("m stuck at 0", x.apart(2, 2, -1), 1);
     }
 
     static void p04_noActsAreKept() {
@@ -656,6 +699,10 @@ public final class TapeTest extends Check {
         faultAt(3, THREE + "stuck a 1;stuck ^a 1;");
         faultAt(3, THREE + "stuck a 1;stuck ^a 0;");
         faultAt(3, THREE + "stuck a 0;stuck b 0;stuck ^a 9;");
+        for (char net = 'a'; net <= 'f'; net++) {
+            faultAt(3, FOUR + SIX + "stuck " + net + " 1;stuck ^" + net + " 1;");
+            faultAt(3, FOUR + SIX + "stuck " + net + " 0;stuck ^" + net + " 0;");
+        }
         due("faults", told(THREE + "stuck a 1;stuck b 0;stuck c 1;").about(2), 3);
     }
 
@@ -819,6 +866,9 @@ public final class TapeTest extends Check {
         faultAt(2, ONE + "stuck n 1 ^1;stuck n 1;$");
         faultAt(1, ONE + "^$ stuck n 2;");
         faultAt(3, ONE + "short n ^n $");
+        for (String e : new String[] {"", "1 or ", "1 and ", "not ", "1 < ", "1 + ", "1 * ", "(", "not (1 or "}) {
+            faultAt(2, "floats " + e + "^;$");
+        }
     }
 
     static void p05_atOnePlaceTheLeast() {
