@@ -11,6 +11,11 @@ abstract class Check {
     /** No index, kind, what, box: for calls that have to refuse them. */
     static final int[] FAR = {Integer.MIN_VALUE, Integer.MIN_VALUE + 1, -1000000, 1000000, Integer.MAX_VALUE};
 
+    static final String TWO = "device a ir 2 id 5 cells 3;device b ir 3 cells 2;"
+        + "net n from a 0 and b 0 to b 1 safe 1;net m from a 1 to a 2;";
+    static final int[] NO_KINDS = {-1, 3, Integer.MIN_VALUE, Integer.MAX_VALUE};
+    static final int[] NO_BITS = {-1, 2, Integer.MIN_VALUE, Integer.MAX_VALUE};
+
     private static int wrong = 0;
     private static int count = 0;
     private static String test = "";
@@ -102,6 +107,42 @@ abstract class Check {
 
     static void fine(String text) {
         fault(text, 0, -1);
+    }
+
+    /** A board of so many nets, each with a driver and a receiver. */
+    static String nets(int nets) {
+        StringBuilder text = new StringBuilder("device a ir 2 cells 6;device b ir 3 cells 6;");
+        for (int n = 0; n < nets; n++) {
+            text.append("net ").append((char) ('p' + n)).append(" from a ").append(n).append(" to b ").append(n).append(";");
+        }
+        return text.toString();
+    }
+
+    // ---- what there is
+
+    /** Of a device all that can be asked. */
+    static void device(ScanBench x, int device, int... wants) {
+        for (int what = 0; what < 8; what++) {
+            due("device(" + device + ", " + what + ")", x.device(device, what), wants[what]);
+        }
+    }
+
+    static void net(ScanBench x, int net, int... wants) {
+        for (int what = 0; what < 8; what++) {
+            due("net(" + net + ", " + what + ")", x.net(net, what), wants[what]);
+        }
+    }
+
+    static void cell(ScanBench x, int device, int cell, int... wants) {
+        for (int what = 0; what < 4; what++) {
+            due("cell(" + device + ", " + cell + ", " + what + ")", x.cell(device, cell, what), wants[what]);
+        }
+    }
+
+    static void clocks(ScanBench x, int... tms) {
+        for (int one : tms) {
+            x.clock(one, 0);
+        }
     }
 
     // ---- refused calls

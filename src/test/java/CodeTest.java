@@ -5,18 +5,7 @@ public final class CodeTest extends Check {
     private static final String THREE = DEVICES + "net p from a 0 to b 0 b 1;net q from a 1 to b 2;net r from a 2 to b 3;";
     /** As three, but r being safe at 0, and p with one RECEIVER. */
     private static final String SAFE = DEVICES + "net p from a 0 to b 0;net q from a 1 to b 1;net r from a 2 to b 2 safe 0;";
-    private static final int[] NO_KINDS = {-1, 3, Integer.MIN_VALUE, Integer.MAX_VALUE};
     private static final int[] NO_NETS = {-1, 3, Integer.MIN_VALUE, Integer.MAX_VALUE};
-    private static final int[] NO_BITS = {-1, 2, Integer.MIN_VALUE, Integer.MAX_VALUE};
-
-    /** A board of so many nets, each with a driver and a receiver. */
-    private static String nets(int nets) {
-        StringBuilder text = new StringBuilder(DEVICES);
-        for (int n = 0; n < nets; n++) {
-            text.append("net ").append((char) ('p' + n)).append(" from a ").append(n).append(" to b ").append(n).append(";");
-        }
-        return text.toString();
-    }
 
     /** The nets' receivers begin by the first cell of all. */
     private static final String FIRST = DEVICES + "net p from b 0 to a 0;net q from b 1 to a 1;net r from b 2 to a 2 safe 0;";

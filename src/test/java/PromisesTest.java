@@ -6,7 +6,8 @@ import java.util.IdentityHashMap;
 
 /** Each promise has tests that are named by it; and what one object takes of the room that all calls of a run share. */
 public final class PromisesTest extends Check {
-    private static final Class<?>[] TESTS = {TapeTest.class, ChainTest.class, WalkTest.class, CodeTest.class, SinglesTest.class};
+    private static final Class<?>[] TESTS = {TapeTest.class, DevicesTest.class, ActsTest.class, WalkTest.class, CodeTest.class,
+        SinglesTest.class};
 
     private static void eachHasTests() {
         int[] counts = new int[50];

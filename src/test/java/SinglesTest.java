@@ -3,8 +3,6 @@ public final class SinglesTest extends Check {
     private static final String DEVICES = "device a ir 2 cells 6;device b ir 3 cells 6;";
     /** 16 single faults: 6 stuck; b 0, b 1, b 2, b 3 open; p q, p r, q r short low and high. COUNT: p 1 0 0, q 0 1 0, r 1 1 0. */
     private static final String THREE = DEVICES + "net p from a 0 to b 0 b 1;net q from a 1 to b 2;net r from a 2 to b 3;";
-    private static final int[] NO_KINDS = {-1, 3, Integer.MIN_VALUE, Integer.MAX_VALUE};
-    private static final int[] NO_BITS = {-1, 2, Integer.MIN_VALUE, Integer.MAX_VALUE};
 
     /** The board with the most single faults: 6 nets with 3 receivers each. */
     private static String most() {
@@ -169,6 +167,11 @@ public final class SinglesTest extends Check {
         due("the last NET stuck at 0 by WALKING", x.apart(2, 10, -1), 1);
         due("the last NET stuck at 0 by BOTH", x.apart(1, 10, -1), 1);
         due("the last two short, low and high", x.apart(2, 58, 59), 1);
+        ScanBench y = told(nets(6));
+        for (int kind = 0; kind < 3; kind++) {
+            due("the first NET stuck at 0, its RECEIVER open", y.apart(kind, 0, 12), 0);
+            due("the last NET stuck at 0, its RECEIVER open", y.apart(kind, 10, 17), 0);
+        }
     }
 
     static void p31_whatThereIsAndTheClockDontMatter() {
@@ -250,13 +253,12 @@ public final class SinglesTest extends Check {
     static void p33_theFewestStepsThatTellEach() {
         // WALKING has fewer steps, but doesn't tell that it is stuck at 1
         due("of one NET", told(DEVICES + "net p from a 0 to b 0;").least(), 0);
-        due("of four NETS", told(DEVICES + "net p from a 0 to b 0;net q from a 1 to b 1;net r from a 2 to b 2;"
-            + "net s from a 3 to b 3;").least(), 0);
+        due("of four NETS", told(nets(4)).least(), 0);
         due("the most", told(most()).least(), 0);
     }
 
     static void p33_ofLikeOnesTheFirst() {
-        ScanBench x = told(DEVICES + "net p from a 0 to b 0;net q from a 1 to b 1;");
+        ScanBench x = told(nets(2));
         due("WALKING tells each", x.told(2, 0), 8);
         due("COUNT tells each", x.told(0, 0), 8);
         due("steps", x.steps(0), x.steps(2));
