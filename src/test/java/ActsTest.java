@@ -59,6 +59,20 @@ public final class ActsTest extends Check {
         }
     }
 
+    /** But that it changes, and is counted. */
+    static void p09_inOtherStatesNothingIsDone() {
+        for (int state : new int[] {1, 2, 5, 6, 7, 9, 12, 13, 14}) {
+            ScanBench x = stirred();
+            WalkTest.lead(x, state);
+            int[] was = all(x);
+            x.clock(1, 1);
+            was[3] = WalkTest.NEXT[state][1];
+            was[4]++;
+            was[6]++;
+            same("clock(1, 1) in " + state, x, was);
+        }
+    }
+
     static void p09_nothingIsShiftedButInShift() {
         for (int state = 0; state < 16; state++) {
             for (String text : new String[] {TWO, ""}) {

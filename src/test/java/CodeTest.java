@@ -157,6 +157,13 @@ public final class CodeTest extends Check {
         due("stuck at what is safe", told(SAFE + "stuck r 0;").good(2), 3);
     }
 
+    static void p25_allDriversHaveTheBit() {
+        String two = DEVICES + "net p from a 0 and b 5 to b 0;net q from a 1 and a 2 to b 1 safe 1;";
+        for (int kind = 0; kind < 3; kind++) {
+            due("good(" + kind + ")", told(two).good(kind), 2);
+        }
+    }
+
     static void p25_theFirstCell() {
         due("whole", told(FIRST).good(0), 3);
         due("open", told(FIRST + "open a 0;").good(0), 2);
@@ -422,6 +429,21 @@ public final class CodeTest extends Check {
         safest(safe + "short p q low;stuck r 1;", 7, 4);
         safest(safe + "short p r high;open b 0;", 4, 4);
         safest(safe + "stuck p 1;", 1, 4);
+    }
+
+    static void p35_bothDriversAlike() {
+        String two = DEVICES + "net p from a 0 and b 5 to b 0;net q from a 1 and a 2 to b 1 safe 1;";
+        safest(two, 2, 2);
+        safest(two + "stuck p 1;", 3, 2);
+    }
+
+    /** The pattern is of what would be in TEST, not of what is. */
+    static void p35_ordersAndLatchesDontMatter() {
+        ScanBench x = told(THREE + "stuck q 1;");
+        x.scan(1, 0, 5);
+        x.scan(0, 4095, 12);
+        still(x, "safest(0)", () -> x.safest(0), 2);
+        still(x, "safest(1)", () -> x.safest(1), 4);
     }
 
     static void p35_noneIsSafe() {
